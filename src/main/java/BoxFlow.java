@@ -58,7 +58,7 @@ public final class BoxFlow {
         tape = new byte[TAPE_ROOM];
         typed = 0;
         faultPlace = NONE;
-        parser = new Parser();
+        parser = new Parser(tape);
         problem = new Problem();
         spare = new Problem();
         coefficients = new Coefficients();
@@ -87,7 +87,7 @@ public final class BoxFlow {
     }
 
     public int compile() throws IllegalArgumentException {
-        faultPlace = parser.read(tape, typed, spare);
+        faultPlace = parser.read(typed, spare);
         typed = 0;
         if (faultPlace != NONE) {
             throw new IllegalArgumentException("the tape has a fault");
@@ -355,7 +355,7 @@ public final class BoxFlow {
         /** No byte of a tape is 0. */
         private static final int END = 0;
 
-        private byte[] text;
+        private final byte[] text;
         private int length;
         private int place;
         private int fault;
@@ -363,8 +363,8 @@ public final class BoxFlow {
         private int below;
         private final int[] firstPlaces;
 
-        Parser() {
-            text = new byte[0];
+        Parser(byte[] tape) {
+            text = tape;
             length = 0;
             place = 0;
             fault = NONE;
@@ -374,41 +374,31 @@ public final class BoxFlow {
         }
 
         /** The place of the fault, or NONE. */
-        int read(byte[] tape, int typed, Problem into) {
-            text = tape;
+        int read(int typed, Problem into) {
+            startOver(typed);
+            boolean good = readEquation('x', into.side[0]);
+            into.sides = 1;
+            for (int v = 1; v < LETTERS && good && here() == 'x' + v; v++) {
+                good = readEquation('x' + v, into.side[v]);
+                into.sides = v + 1;
+            }
+            into.hasCrossing = good && here() == 'g';
+            if (into.hasCrossing) {
+                good = readEquation('g', into.crossed);
+            }
+            if (good && here() != END) {
+                good = faultAt(place);
+            }
+            return good ? firstWithoutSide(into.sides) : fault;
+        }
+
+        private void startOver(int typed) {
             length = typed;
             place = 0;
             fault = NONE;
             for (int v = 0; v < LETTERS; v++) {
                 firstPlaces[v] = NONE;
             }
-            if (readSides(into) && readCrossing(into) && readEnd()) {
-                fault = firstWithoutSide(into.sides);
-            }
-            return fault;
-        }
-
-        private boolean readSides(Problem into) {
-            into.sides = 0;
-            for (int v = 0; v < LETTERS; v++) {
-                if (v > 0 && here() != 'x' + v) {
-                    return true;
-                }
-                if (!readEquation('x' + v, into.side[v])) {
-                    return false;
-                }
-                into.sides = v + 1;
-            }
-            return true;
-        }
-
-        private boolean readCrossing(Problem into) {
-            into.hasCrossing = here() == 'g';
-            return !into.hasCrossing || readEquation('g', into.crossed);
-        }
-
-        private boolean readEnd() {
-            return here() == END || faultAt(place);
         }
 
         /** Only the whole problem tells which letters have a SIDE, so these are looked at behind all else. */
