@@ -18,6 +18,7 @@ public final class ModelTest {
             oneRun();
         }
         runsThatFail();
+        runsWidenedToTheLimit();
         faultsOfManyTapes();
         System.out.println("ModelTest: the SHIFT grew " + Model.grown + " times, got less " + Model.lessened + " times, "
             + Model.failures + " steps FAILED, " + Model.beyonds + " were BEYOND");
@@ -143,6 +144,20 @@ public final class ModelTest {
                 () -> flow.settle(2, horizon, 9) ? 1 : 0, () -> model.settle(2, horizon, 9) ? 1 : 0);
             steps();
             lookAround();
+        }
+    }
+
+    /** Near the LIMIT the eighth widening alone goes beyond: that is BEYOND, though the proof has failed as well. */
+    private static void runsWidenedToTheLimit() {
+        for (int room = 0; room < 6000; room += 40) {
+            flow = new BoxFlow();
+            model = new Model();
+            typeAndCompile("x=1/2x-1/2x+1/2x-1/2x+1/2x-1/2x+1/2x-1/2x+1/2x-1/2x;");
+            int end = ((1 << 30) - room) * (room % 80 == 0 ? 1 : -1);
+            same("settle", () -> flow.settle(1, ONE, 2) ? 1 : 0, () -> model.settle(1, ONE, 2) ? 1 : 0);
+            same("begin at " + end, () -> flow.begin(0, end, end) ? 1 : 0, () -> model.begin(0, end, end) ? 1 : 0);
+            same("step(1)", () -> flow.step(1), () -> model.step(1));
+            lookAtState();
         }
     }
 
