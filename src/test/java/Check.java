@@ -1,7 +1,7 @@
 import java.util.function.LongSupplier;
 
 /** Counts the answers of one test that are not as due, and ends the test. */
-final class Check {
+class Check {
     private final String test;
     private int asked = 0;
     private int wrong = 0;
@@ -20,6 +20,13 @@ final class Check {
     void due(String call, boolean got, boolean want) {
         asked++;
         if (got != want) {
+            tell(call + " answered " + got + ", due is " + want);
+        }
+    }
+
+    void due(String call, String got, String want) {
+        asked++;
+        if (!got.equals(want)) {
             tell(call + " answered " + got + ", due is " + want);
         }
     }

@@ -10,11 +10,11 @@ public final class ModelTest {
     private static BoxFlow flow;
     private static Model model;
     private static int run;
+    private static int calls;
 
     public static void main(String[] args) {
-        for (run = 0; run < 800; run++) {
-            flow = new BoxFlow();
-            model = new Model();
+        for (run = 0; run < 2500; run++) {
+            newObjects();
             oneRun();
         }
         runsThatFail();
@@ -27,6 +27,12 @@ public final class ModelTest {
         check.due("some steps FAILED", Model.failures > 3, true);
         check.due("some steps were BEYOND", Model.beyonds > 100, true);
         check.end();
+    }
+
+    private static void newObjects() {
+        flow = new BoxFlow();
+        model = new Model();
+        calls = 0;
     }
 
     private static void oneRun() {
@@ -86,7 +92,7 @@ public final class ModelTest {
     private static void lookAround() {
         lookAtState();
         same("fault()", () -> flow.fault(), () -> model.fault);
-        for (int k = 0; k < 8; k++) {
+        for (int k = 0; k < 2; k++) {
             int i = draw.nextInt(4) == 0 ? draw.nextInt(30) - 1 : model.marks.size() - draw.nextInt(3);
             for (int v = -1; v <= 4; v++) {
                 for (int w = -1; w <= 4; w++) {
@@ -97,7 +103,7 @@ public final class ModelTest {
                 }
             }
         }
-        for (int i = -1; i <= model.crosses.size(); i++) {
+        for (int i = model.crosses.size(); i >= Math.max(-1, model.crosses.size() - 3); i--) {
             for (int w = -1; w <= 3; w++) {
                 int number = i;
                 int what = w;
@@ -132,8 +138,7 @@ public final class ModelTest {
     /** Only with the finest step can a proof fail for good: with a coarser one it is halved, or goes beyond. */
     private static void runsThatFail() {
         for (int i = 0; i < 200; i++) {
-            flow = new BoxFlow();
-            model = new Model();
+            newObjects();
             typeAndCompile(cancelling(700 + draw.nextInt(300), 3));
             int low = ONE - draw.nextInt(ONE / 40);
             int high = low + draw.nextInt(20);
@@ -150,8 +155,7 @@ public final class ModelTest {
     /** Near the LIMIT the eighth widening alone goes beyond: that is BEYOND, though the proof has failed as well. */
     private static void runsWidenedToTheLimit() {
         for (int room = 0; room < 6000; room += 40) {
-            flow = new BoxFlow();
-            model = new Model();
+            newObjects();
             typeAndCompile("x=1/2x-1/2x+1/2x-1/2x+1/2x-1/2x+1/2x-1/2x+1/2x-1/2x;");
             int end = ((1 << 30) - room) * (room % 80 == 0 ? 1 : -1);
             same("settle", () -> flow.settle(1, ONE, 2) ? 1 : 0, () -> model.settle(1, ONE, 2) ? 1 : 0);
@@ -163,8 +167,7 @@ public final class ModelTest {
 
     private static void faultsOfManyTapes() {
         for (int i = 0; i < 6000; i++) {
-            flow = new BoxFlow();
-            model = new Model();
+            newObjects();
             String tape = problem();
             int times = draw.nextInt(3);
             for (int t = 0; t <= times; t++) {
@@ -234,7 +237,12 @@ public final class ModelTest {
         return text.toString();
     }
 
+    /** What an object answers behind its 512th call is free. */
     private static void same(String call, LongSupplier program, LongSupplier asked) {
+        if (calls == 512) {
+            return;
+        }
+        calls++;
         check.due("run " + run + ": " + call, answer(program), answer(asked));
     }
 

@@ -1,523 +1,693 @@
-/** The promises 1 to 11 one by one: ordinary calls, the edges that the document names, and wrong arguments. */
+import java.util.function.Consumer;
+
+/**
+ * The sentences of promises 1 to 11 and of "What it is", one method each: the last value that is still taken, the first
+ * one that is not, and that a refused call leaves all as it is.
+ */
 public final class PromiseTest {
-    private static final int ONE = 1 << 20;
-    private static final int LIMIT = 1 << 30;
-    private static final Check check = new Check("PromiseTest");
+    private static final int ONE = Bench.ONE;
+    private static final int LIMIT = Bench.LIMIT;
+    private static final int NONE = Bench.NONE;
+    private static final int LEAST = Integer.MIN_VALUE;
+    private static final int MOST = Integer.MAX_VALUE;
+    private static final Bench bench = new Bench("PromiseTest");
 
     public static void main(String[] args) {
+        used512Times();
         newObject();
-        typeTakesBytes();
-        typeKeepsTheTapesLength();
-        compileMakesAProblem();
+        newObjectRefuses();
+        typeTakesOneToEightBytes();
+        typeTakesTheHighestFirst();
+        typeTakes33To126();
+        typeIsRefusedForAnyByte();
+        typeFillsTheTape();
+        typeRefusedChangesNothing();
+        compileTellsHowManySides();
+        compileEmptiesTheTape();
+        compileBeginsAllLettersAtZero();
+        compileBeginsTheRunAnew();
         compileWithAFaultChangesNothing();
-        faultTellsThePlace();
+        compileOfAnEmptyTape();
+        faultIsOfTheLatestCompile();
         beginSetsALetter();
-        settleSetsTheRun();
+        beginBeginsTheRunAnew();
+        beginIsRefused();
+        settleBeginsTheRunAnew();
+        settleIsRefused();
+        stepDoesAtMostN();
         stepGoesToTheHorizon();
-        stepThrows();
-        stepIsRefusedAsFailed();
-        stepIsRefusedAsBeyond();
-        shiftGetsLessBehindThreeCalmSteps();
+        stepWithoutAProblem();
+        stepIsRefusedBehindOthers();
+        stepWithAWrongN();
         stateAnswers();
+        stateOfNone();
+        stateTellsWhy();
         boxAnswers();
-        boxesBehindTheFirst400();
+        boxOfTheFirstIsItsOwn();
+        boxThereIsNone();
+        boxKeepsTheFirst400();
         crossingAnswers();
-        crossingsPassOverZeros();
-        crossingsBehindTheFirst100();
-        coefficientRoundsOutward();
-        coefficientThrows();
-        check.end();
+        crossingThereIsNone();
+        crossingKeepsTheFirst100();
+        coefficientIsOverThePresentBox();
+        coefficientThereIsNone();
+        coefficientIsBeyondForAllLetters();
+        coefficientIsBeyondUpToItsNumber();
+        askingChangesNothing();
+        bench.end();
     }
 
-    // ---- helpers
+    // ---- objects that refused calls are made on
 
-    private static void typeAll(BoxFlow flow, String tape) {
-        for (int i = 0; i < tape.length(); i += 8) {
-            String part = tape.substring(i, Math.min(tape.length(), i + 8));
-            check.due("type " + part, flow.type(wordOf(part), part.length()), true);
-        }
-    }
-
-    private static long wordOf(String part) {
-        long word = 0;
-        for (int i = 0; i < part.length(); i++) {
-            word = word << 8 | part.charAt(i);
-        }
-        return word;
-    }
-
-    private static BoxFlow flowOf(String tape) {
-        BoxFlow flow = new BoxFlow();
-        typeAll(flow, tape);
-        flow.compile();
-        check.due("fault() of " + tape, flow.fault(), BoxFlow.NONE);
+    /** In the middle of a run, with a fault told, and with a problem on the tape of which only the ; is missing. */
+    private static BoxFlow inTheMiddle() {
+        BoxFlow flow = bench.flowOf("x=y;y=-x;g=x-1/4;", 3, ONE / 2, 3, 5, 9, ONE, ONE);
+        bench.typeAll(flow, "x=1;?");
+        Bench.answer(() -> flow.compile());
+        flow.step(2);
+        bench.typeAll(flow, "x=1-x");
         return flow;
     }
 
-    private static BoxFlow flowOf(String tape, int order, int horizon, int coarse, int... ends) {
-        BoxFlow flow = flowOf(tape);
-        check.due("settle for " + tape, flow.settle(order, horizon, coarse), true);
-        for (int i = 0; i < ends.length; i += 2) {
-            check.due("begin for " + tape, flow.begin(i / 2, ends[i], ends[i + 1]), true);
-        }
+    /** Without a problem, with one on the tape of which only the ; is missing. */
+    private static BoxFlow withoutAProblem() {
+        BoxFlow flow = new BoxFlow();
+        bench.typeAll(flow, "x=1;y=2-y");
         return flow;
     }
 
-    private static void dueState(String when, BoxFlow flow, int... want) {
-        for (int what = 0; what < want.length; what++) {
-            check.due(when + ": state(" + what + ")", flow.state(what), want[what]);
-        }
+    private static void dueNothingChanged(String call, Consumer<BoxFlow> calls) {
+        bench.dueAsIfNotCalled(call, () -> inTheMiddle(), calls);
     }
 
-    private static void dueBox(BoxFlow flow, int i, int v, int... want) {
-        for (int what = 0; what < want.length; what++) {
-            check.due("box(" + i + ", " + v + ", " + what + ")", flow.box(i, v, what), want[what]);
-        }
-    }
+    // ---- What it is
 
-    private static void dueNoBox(BoxFlow flow, int i, int v, int what) {
-        check.dueThrow("box(" + i + ", " + v + ", " + what + ")", () -> flow.box(i, v, what),
-            IndexOutOfBoundsException.class);
-    }
-
-    private static void dueNoCrossing(BoxFlow flow, int i, int what) {
-        check.dueThrow("crossing(" + i + ", " + what + ")", () -> flow.crossing(i, what),
-            IndexOutOfBoundsException.class);
-    }
-
-    private static void dueCoefficient(BoxFlow flow, int v, int k, int low, int high) {
-        check.due("coefficient(" + v + ", " + k + ", false)", flow.coefficient(v, k, false), low);
-        check.due("coefficient(" + v + ", " + k + ", true)", flow.coefficient(v, k, true), high);
-    }
-
-    private static void dueNoCoefficient(BoxFlow flow, int v, int k, Class<? extends RuntimeException> want) {
-        check.dueThrow("coefficient(" + v + ", " + k + ", false)", () -> flow.coefficient(v, k, false), want);
-        check.dueThrow("coefficient(" + v + ", " + k + ", true)", () -> flow.coefficient(v, k, true), want);
-    }
-
-    private static int faultOf(String tape) {
+    /** "An object is used for at most 512 calls": all of them answer as due. */
+    private static void used512Times() {
         BoxFlow flow = new BoxFlow();
-        typeAll(flow, tape);
-        try {
-            flow.compile();
-        } catch (IllegalArgumentException e) {
-            return flow.fault();
+        bench.typeAll(flow, "x=1;g=x-1/3;");
+        bench.due("compile()", flow.compile(), 1);
+        bench.due("settle", flow.settle(8, 1 << 26, 10), true);
+        int calls = 4;
+        for (int i = 0; i < 327; i++, calls++) {
+            bench.due("step(200)", flow.step(200), 200);
         }
-        return flow.fault();
+        bench.due("step(200) to the farthest HORIZON", flow.step(200), 136);
+        calls++;
+        bench.dueState("65537 boxes", flow, 1 << 26, 10, 65537, 0, 65536, 1);
+        calls += 6;
+        for (int i = 0; i < 19; i++, calls += 9) {
+            int box = 21 * i;
+            bench.dueBox(flow, box, 0, box * 1024, box * 1024, Math.max(0, box - 1) * 1024, box * 1024);
+            bench.dueBox(flow, box, 3, box * 1024, box * 1024 > ONE / 3 ? 1 : -1);
+            bench.dueCrossing(flow, 0, 341, 342, 1);
+        }
+        bench.dueCoefficient(flow, 0, 0, 1 << 26, 1 << 26);
+        calls += 2;
+        bench.due("the 512th call: state(2)", flow.state(2), 65537);
+        bench.due("calls", calls + 1, 512);
     }
 
     // ---- promise 1
 
+    /** "makes an object in the state that the terms give": no problem, an empty tape, the first settings. */
     private static void newObject() {
         BoxFlow flow = new BoxFlow();
-        dueState("new", flow, 0, 4, 0, 0, 0, 0);
-        check.due("fault()", flow.fault(), BoxFlow.NONE);
-        check.due("begin without a problem", flow.begin(0, 0, 0), false);
-        check.dueThrow("step(1)", () -> flow.step(1), IllegalStateException.class);
-        check.dueThrow("step(0)", () -> flow.step(0), IllegalStateException.class);
-        dueNoBox(flow, 0, 0, 0);
-        dueNoBox(flow, 0, 3, 0);
-        dueNoCrossing(flow, 0, 0);
-        dueNoCoefficient(flow, 0, 0, IndexOutOfBoundsException.class);
-        check.due("settle without a problem", flow.settle(8, 160, 7), true);
-        dueState("settled", flow, 0, 7, 0, 0, 0, 0);
-        BoxFlow other = flowOf("x=1;");
-        check.due("step(200): the first HORIZON and COARSENESS", other.step(200), 16);
-        dueState("the first HORIZON", other, ONE, 4, 17, 0, 16, 0);
+        bench.dueState("new", flow, 0, 4, 0, 0, 0, 0);
+        bench.due("fault()", flow.fault(), NONE);
+        bench.dueThrow("compile(): the tape is empty", () -> flow.compile(), IllegalArgumentException.class);
+        bench.due("fault()", flow.fault(), 0);
+        bench.due("settle without a problem", flow.settle(8, 160, 7), true);
+        bench.dueState("settled", flow, 0, 7, 0, 0, 0, 0);
+        bench.typeAll(flow, "x=1;");
+        bench.due("compile()", flow.compile(), 1);
+        bench.due("step(200): settled before there was a problem", flow.step(200), 2);
+    }
+
+    private static void newObjectRefuses() {
+        bench.dueAsIfNotCalled("calls that need a problem", () -> withoutAProblem(), flow -> {
+            bench.due("begin without a problem", flow.begin(0, 0, 0), false);
+            bench.dueThrow("step(1)", () -> flow.step(1), IllegalStateException.class);
+            bench.dueNoBox(flow, 0, 0, 0);
+            bench.dueNoBox(flow, 0, 3, 0);
+            bench.dueNoBox(flow, 0, 3, 1);
+            bench.dueNoCrossing(flow, 0, 0);
+            bench.dueNoCoefficient(flow, 0, 0, IndexOutOfBoundsException.class);
+        });
+        BoxFlow one = new BoxFlow();
+        BoxFlow other = bench.flowOf("x=1;");
+        bench.dueState("another object has its own state", one, 0, 4, 0, 0, 0, 0);
+        bench.due("another object's problem", other.state(2), 1);
     }
 
     // ---- promise 2
 
-    private static void typeTakesBytes() {
-        BoxFlow flow = new BoxFlow();
-        check.due("type with n 0", flow.type(0x78L, 0), false);
-        check.due("type with n 9", flow.type(0x7878787878787878L, 9), false);
-        check.due("type with n -1", flow.type(0x78L, -1), false);
-        check.due("type of 32", flow.type(0x7820L, 2), false);
-        check.due("type of 127", flow.type(0x7f78L, 2), false);
-        check.due("type of 0", flow.type(0x78L, 2), false);
-        check.due("type of 255", flow.type(0xffL, 1), false);
-        check.due("type of a byte above 127", flow.type(0xf8L, 1), false);
-        check.due("type of a word below 0", flow.type(0x80783d313b783d31L, 8), false);
-        check.due("type: only the lowest bytes count", flow.type(0xff00ff0000783d31L, 3), true);
-        check.due("type of 59", flow.type(0x3bL, 1), true);
-        check.due("compile(): highest first, nothing of what was refused", flow.compile(), 1);
-        check.due("type of 33 and 126", flow.type(0x217eL, 2), true);
-        check.dueThrow("compile()", () -> flow.compile(), IllegalArgumentException.class);
-        check.due("fault()", flow.fault(), 0);
+    /** "The n (1 .. 8) lowest bytes of word"; "false .. for another n" */
+    private static void typeTakesOneToEightBytes() {
+        String problem = "x=x-x;g=x;";
+        for (int n = 1; n <= 8; n++) {
+            BoxFlow flow = new BoxFlow();
+            bench.due("type with n " + n, flow.type(Bench.wordOf(problem.substring(0, n)), n), true);
+            bench.typeAll(flow, problem.substring(n));
+            bench.due("compile() behind n " + n, flow.compile(), 1);
+        }
+        for (int n : new int[] {LEAST, -8, -1, 0, 9, 16, 240, 256 + 1, MOST}) {
+            dueNothingChanged("type with n " + n, flow ->
+                bench.due("type with n " + n, flow.type(0x7878787878787878L, n), false));
+        }
     }
 
-    private static void typeKeepsTheTapesLength() {
+    /** "the highest first": and what stands above the n lowest ones does not count. */
+    private static void typeTakesTheHighestFirst() {
         BoxFlow flow = new BoxFlow();
-        StringBuilder tape = new StringBuilder("x=1");
-        for (int i = 0; i < 10; i++) {
-            tape.append("+001/01x^1y^1z^1y");
+        bench.due("type of x=1 below other bytes", flow.type(0xff00ff2000783d31L, 3), true);
+        bench.due("type of ; below other bytes", flow.type(0x7f7f7f7f7f7f7f3bL, 1), true);
+        bench.due("type of eight", flow.type(0x793d322d793b673dL, 8), true);
+        bench.due("type of two", flow.type(-1L << 16 | 0x793bL, 2), true);
+        bench.due("compile() of x=1;y=2-y;g=y;", flow.compile(), 2);
+        bench.dueCoefficient(flow, 0, 1, ONE, ONE);
+        bench.dueCoefficient(flow, 1, 1, 2 * ONE, 2 * ONE);
+    }
+
+    /** "a byte that is not 33 .. 126" */
+    private static void typeTakes33To126() {
+        for (int c = 0; c < 256; c++) {
+            BoxFlow flow = new BoxFlow();
+            bench.due("type of " + c, flow.type(c, 1), c >= 33 && c <= 126);
         }
-        tape.append(";y=1;z=1;g=1");
-        while (tape.length() < 239) {
-            tape.append(tape.length() % 2 == 0 ? "1" : "+");
+    }
+
+    private static void typeIsRefusedForAnyByte() {
+        dueNothingChanged("type with a wrong byte", flow -> {
+            for (long wrong : new long[] {0, 32, 127, 128, 255}) {
+                for (int place = 0; place < 8; place++) {
+                    long word = 0x7878787878787878L & ~(255L << 8 * place) | wrong << 8 * place;
+                    bench.due("type of " + wrong + " at " + place, flow.type(word, 8), false);
+                }
+            }
+        });
+    }
+
+    /** "or if it would have more than 240" */
+    private static void typeFillsTheTape() {
+        for (int n = 1; n <= 8; n++) {
+            BoxFlow flow = new BoxFlow();
+            bench.typeAll(flow, "x".repeat(240 - n));
+            if (n < 8) {
+                bench.due("type to 241", flow.type(0x7878787878787878L, n + 1), false);
+            }
+            bench.due("type to 248 less " + n, flow.type(0x7878787878787878L, 8), n == 8);
+            bench.due("type to 240", flow.type(0x7878787878787878L, n), n < 8);
+            bench.due("type to 241", flow.type('x', 1), false);
+            bench.due("type of nothing", flow.type('x', 0), false);
+            bench.dueThrow("compile()", () -> flow.compile(), IllegalArgumentException.class);
+            bench.due("type on the empty tape", flow.type(0x7878787878787878L, 8), true);
         }
-        typeAll(flow, tape.substring(0, 232));
-        check.due("type to 239", flow.type(wordOf(tape.substring(232)), 7), true);
-        check.due("type to 241", flow.type(0x783bL, 2), false);
-        check.due("type to 247", flow.type(0x7878787878787878L, 8), false);
-        check.due("type to 240", flow.type(0x3bL, 1), true);
-        check.due("type to 241", flow.type(0x3bL, 1), false);
-        check.dueThrow("compile()", () -> flow.compile(), IllegalArgumentException.class);
-        check.due("fault()", flow.fault(), tape.toString().lastIndexOf("g=") + 2 + 24 - 1);
-        check.due("type on the empty tape", flow.type(0x78787878L, 4), true);
+    }
+
+    /** "false, changing nothing": the tape is a problem of 240 characters, and stays it. */
+    private static void typeRefusedChangesNothing() {
+        String full = "x=1+111+111;y=2" + "+000/01x^1y^1".repeat(11) + ";g=" + "x^2y^2+".repeat(11) + "1;";
+        bench.due("characters", full.length(), 240);
+        BoxFlow flow = new BoxFlow();
+        bench.typeAll(flow, full.substring(0, 239));
+        bench.due("type of a wrong byte", flow.type(31, 1), false);
+        bench.due("type with a wrong n", flow.type(';', 9), false);
+        bench.due("type of the last one", flow.type(';', 1), true);
+        for (int n = 1; n <= 8; n++) {
+            bench.due("type of " + n + " more", flow.type(0x3b3b3b3b3b3b3b3bL, n), false);
+        }
+        bench.due("compile()", flow.compile(), 2);
     }
 
     // ---- promise 3
 
-    private static void compileMakesAProblem() {
-        BoxFlow flow = flowOf("x=1;", 2, 3 * ONE, 1, 5, 9);
-        flow.step(2);
-        typeAll(flow, "x=y;y=-x;z=0;g=z-1;");
-        check.due("compile()", flow.compile(), 3);
-        dueState("compiled", flow, 0, 1, 1, 0, 0, 0);
-        dueBox(flow, 0, 0, 0, 0, 0, 0);
-        dueBox(flow, 0, 2, 0, 0, 0, 0);
-        dueBox(flow, 0, 3, 0, -1);
-        check.due("step(200): ORDER, HORIZON and COARSENESS stay", flow.step(200), 6);
-        typeAll(flow, "x=1;y=1;");
-        check.due("compile()", flow.compile(), 2);
-        typeAll(flow, "x=1;g=1;");
-        check.due("compile()", flow.compile(), 1);
-        dueNoBox(flow, 0, 1, 0);
-        dueBox(flow, 0, 3, 0, 1);
-        typeAll(flow, "x=1;");
-        check.due("compile()", flow.compile(), 1);
-        dueBox(flow, 0, 3, 0, 0);
+    /** "The tape .. is the problem: how many SIDES." */
+    private static void compileTellsHowManySides() {
+        BoxFlow flow = new BoxFlow();
+        String[] tapes = {"x=1;", "x=1;g=x;", "x=1;y=1;", "x=1;y=1;z=1;", "x=1;y=1;z=1;g=1;", "x=1;y=1;g=y;", "x=1;"};
+        int[] sides = {1, 1, 2, 3, 3, 2, 1};
+        for (int i = 0; i < tapes.length; i++) {
+            bench.typeAll(flow, tapes[i]);
+            bench.due("compile() of " + tapes[i], flow.compile(), sides[i]);
+            for (int v = 0; v < 3; v++) {
+                bench.due("begin of letter " + v, flow.begin(v, 0, 0), v < sides[i]);
+            }
+        }
+        // The letters, the CROSSING and the terms of an earlier problem are gone.
+        bench.dueNoBox(flow, 0, 1, 0);
+        bench.dueBox(flow, 0, 3, 0, 0);
+        bench.dueCoefficient(flow, 0, 1, ONE, ONE);
     }
 
+    /** "(which is empty then in any case)" */
+    private static void compileEmptiesTheTape() {
+        BoxFlow flow = bench.flowOf("x=1;");
+        bench.dueThrow("compile() behind a good one", () -> flow.compile(), IllegalArgumentException.class);
+        bench.due("fault()", flow.fault(), 0);
+        bench.typeAll(flow, "x=1;?");
+        bench.dueThrow("compile()", () -> flow.compile(), IllegalArgumentException.class);
+        bench.due("fault()", flow.fault(), 4);
+        bench.dueThrow("compile() behind a fault", () -> flow.compile(), IllegalArgumentException.class);
+        bench.due("fault()", flow.fault(), 0);
+        bench.typeAll(flow, "x=1;?");
+        bench.dueThrow("compile()", () -> flow.compile(), IllegalArgumentException.class);
+        bench.typeAll(flow, "x=1;y=2;");
+        bench.due("compile() behind a fault", flow.compile(), 2);
+        for (int i = 0; i < 30; i++) {
+            bench.due("type", flow.type(0x7878787878787878L, 8), true);
+        }
+        bench.due("type on a full tape", flow.type('x', 1), false);
+        bench.dueThrow("compile() of a full tape", () -> flow.compile(), IllegalArgumentException.class);
+        bench.due("type on an empty tape", flow.type('x', 1), true);
+    }
+
+    /** "All letters begin at 0 (0 to 0)" */
+    private static void compileBeginsAllLettersAtZero() {
+        BoxFlow flow = bench.flowOf("x=1;y=2;z=3;", 4, ONE, 3, 1, 2, 3, 4, 5, 6);
+        flow.step(2);
+        bench.typeAll(flow, "x=0;y=0;z=0;");
+        bench.due("compile()", flow.compile(), 3);
+        for (int v = 0; v < 3; v++) {
+            bench.dueBox(flow, 0, v, 0, 0, 0, 0);
+            bench.dueCoefficient(flow, v, 0, 0, 0);
+        }
+        // Also those that only a later problem has again, and also when the run begins anew once more.
+        bench.due("begin", flow.begin(2, 7, 8), true);
+        bench.typeAll(flow, "x=0;");
+        flow.compile();
+        bench.typeAll(flow, "x=0;y=0;z=0;");
+        flow.compile();
+        flow.settle(4, ONE, 3);
+        bench.dueBox(flow, 0, 2, 0, 0, 0, 0);
+    }
+
+    /** "the run begins anew": with the same ORDER, HORIZON and COARSENESS. */
+    private static void compileBeginsTheRunAnew() {
+        BoxFlow flow = bench.flowOf("x=1;g=x-1/4;", 2, 3 * ONE, 1);
+        flow.step(2);
+        bench.dueState("two steps", flow, ONE, 1, 3, 0, 2, 1);
+        bench.typeAll(flow, "x=y;y=-x;z=0;g=z-1;");
+        bench.due("compile()", flow.compile(), 3);
+        bench.dueState("compiled", flow, 0, 1, 1, 0, 0, 0);
+        bench.dueBox(flow, 0, 3, 0, -1);
+        bench.dueNoBox(flow, 1, 3, 0);
+        bench.dueNoCrossing(flow, 0, 0);
+        bench.due("step(200): HORIZON and COARSENESS stay", flow.step(200), 6);
+        bench.typeAll(flow, "x=3x;");
+        flow.compile();
+        flow.begin(0, ONE, ONE);
+        bench.dueStep(flow);
+        BoxFlow other = bench.flowOf("x=3x;", 2, 3 * ONE, 1, ONE, ONE);
+        bench.dueStep(other);
+        bench.dueAlike("ORDER stays", flow, other);
+    }
+
+    /** "IllegalArgumentException: it has a fault; all stays as it is." */
     private static void compileWithAFaultChangesNothing() {
-        BoxFlow flow = flowOf("x=1;g=x-1/2;", 4, ONE, 2, 0, 0);
-        flow.step(3);
-        typeAll(flow, "x=1;y=2;g=7");
-        check.dueThrow("compile()", () -> flow.compile(), IllegalArgumentException.class);
-        check.due("fault()", flow.fault(), 11);
-        dueState("as before", flow, 3 * ONE / 4, 2, 4, 0, 3, 1);
-        dueBox(flow, 3, 0, 3 * ONE / 4, 3 * ONE / 4);
-        dueBox(flow, 3, 3, 3 * ONE / 4, 1);
-        dueNoBox(flow, 3, 1, 0);
-        check.dueThrow("compile(): the tape is empty", () -> flow.compile(), IllegalArgumentException.class);
-        check.due("fault()", flow.fault(), 0);
-        check.due("step(5): the run goes on", flow.step(5), 1);
-        dueBox(flow, 4, 0, ONE, ONE);
-        typeAll(flow, "x=2;");
-        check.due("compile()", flow.compile(), 1);
-        check.due("fault()", flow.fault(), BoxFlow.NONE);
+        String[] tapes = {"x=1;y=2;z=3;g=7", "x=1;g=1/0;", "x=9;y=z;", "?", "x=1;y=1;g=x-1/4;;"};
+        for (String tape : tapes) {
+            BoxFlow flow = bench.flowOf("x=y;y=-x;g=x-1/4;", 3, ONE / 2, 3, 5, 9, ONE, ONE);
+            BoxFlow other = bench.flowOf("x=y;y=-x;g=x-1/4;", 3, ONE / 2, 3, 5, 9, ONE, ONE);
+            flow.step(2);
+            other.step(2);
+            bench.typeAll(flow, tape);
+            bench.dueThrow("compile() of " + tape, () -> flow.compile(), IllegalArgumentException.class);
+            bench.due("all but the fault behind " + tape, Bench.lookAtRun(flow, 0, 1, 2, 3, 4, 5),
+                Bench.lookAtRun(other, 0, 1, 2, 3, 4, 5));
+            // An empty tape has a fault as well, and leaves both with the same one.
+            bench.dueThrow("compile()", () -> flow.compile(), IllegalArgumentException.class);
+            bench.dueThrow("compile()", () -> other.compile(), IllegalArgumentException.class);
+            bench.typeAll(flow, "x=1-x");
+            bench.typeAll(other, "x=1-x");
+            bench.goOnAlike("behind " + tape, flow, other);
+        }
+        BoxFlow none = new BoxFlow();
+        bench.typeAll(none, "x=1;y=2;?");
+        bench.dueThrow("compile()", () -> none.compile(), IllegalArgumentException.class);
+        bench.dueThrow("step(1): there is still no problem", () -> none.step(1), IllegalStateException.class);
+        bench.dueState("still no problem", none, 0, 4, 0, 0, 0, 0);
+        bench.due("begin: there is still no letter", none.begin(0, 0, 0), false);
+    }
+
+    private static void compileOfAnEmptyTape() {
+        BoxFlow flow = bench.flowOf("x=1;", 4, ONE, 2);
+        flow.step(1);
+        bench.dueThrow("compile()", () -> flow.compile(), IllegalArgumentException.class);
+        bench.due("fault(): the tape's length", flow.fault(), 0);
+        bench.dueState("as before", flow, ONE / 4, 2, 2, 0, 1, 0);
     }
 
     // ---- promise 4
 
-    private static void faultTellsThePlace() {
-        String seven = "xxxxxxx";
-        String[] tapes = {
-            "", "x", "x=", "x=1", "x=1;y", "x=1;g", "x=1;;", "x=1;x=1;", "y=1;", "g=1;", "x-1;", "X=1;",
-            "x=1;y=1;y=1;", "x=1;y=1;z=1;z=1;", "x=1;g=1;g=1;", "x=1;g=1;x", "x=1;z=1;", "x=+1;", "x=1+-1;", "x=1++1;",
-            "x=1-;", "x=x2;", "x=2x3;", "x=1234;", "x=1/;", "x=1/x;", "x=/2;", "x=1/2/3;", "x=1/100;", "x=1^2;",
-            "x=x^;", "x=x^x;", "x=x^22;", "x=x^1^1;", "x=(x);", "x=x*x;", "x=x.",
-            "x=1/0;", "x=1/00;", "x=1/0", "x=1/000;", "x=1/0?", "x=1/01;", "x=0;", "x=0/7;", "x=000x;",
-            "x=x^4x^2;", "x=x^4x^3;", "x=x^4xxx;", "x=" + seven + ";", "x=x^3x^3x^4;", "x=x^4x^2x^9;", "x=yyyyyyy;",
-            "x=xxxxxx+xxxxxx;g=x^3x^3-" + seven + ";",
-            "x=y;", "x=z;y=1;", "x=z+y;", "x=1;g=z+y;", "x=y;y=x;", "x=z;y=y;z=x;", "x=y;g=1/0;", "x=y;y=z;z=", "x=y",
-            "x=-1-1-1-1-1-1-1-1-1-1-1-1;", "x=-1-1-1-1-1-1-1-1-1-1-1-1-1;", "x=1+1+1+1+1+1+1+1+1+1+1+1+;",
-            "x=1;y=1+1+1+1+1+1+1+1+1+1+1+1;z=1+1;g=1+1+1+1+1+1+1+1+1+1+1+1+1;",
-        };
-        int[] places = {
-            0, 1, 2, 3, 5, 5, 4, 4, 0, 0, 1, 0,
-            8, 12, 8, 8, 4, 2, 4, 4,
-            4, 3, 4, 5, 4, 4, 2, 5, 6, 3,
-            4, 4, 5, 5, 2, 3, 3,
-            4, 4, 4, 4, 4, -1, -1, -1, -1,
-            -1, 7, 7, 8, 8, 8, 8,
-            31,
-            2, 2, 2, 6, -1, -1, 8, 10, 3,
-            -1, 26, 25,
-            61,
-        };
-        check.due("as many tapes as places", tapes.length, places.length);
-        for (int i = 0; i < tapes.length; i++) {
-            check.due("fault() of " + tapes[i], faultOf(tapes[i]), places[i]);
-        }
+    /** "The place of the fault of the latest compile(); NONE for none." */
+    private static void faultIsOfTheLatestCompile() {
+        BoxFlow flow = new BoxFlow();
+        bench.due("NONE", NONE, -1);
+        bench.due("fault() without a compile()", flow.fault(), NONE);
+        bench.typeAll(flow, "x=1;?");
+        bench.due("fault() before compile()", flow.fault(), NONE);
+        Bench.answer(() -> flow.compile());
+        bench.due("fault()", flow.fault(), 4);
+        bench.typeAll(flow, "x=1;");
+        flow.settle(4, ONE, 2);
+        flow.begin(0, 1, 0);
+        bench.due("fault() before the next compile()", flow.fault(), 4);
+        bench.due("compile()", flow.compile(), 1);
+        bench.due("fault() behind a good one", flow.fault(), NONE);
+        bench.typeAll(flow, "x=1;y=z;");
+        Bench.answer(() -> flow.compile());
+        bench.due("fault()", flow.fault(), 6);
+        bench.due("fault() asked twice", flow.fault(), 6);
+        flow.begin(0, 0, 1);
+        flow.step(3);
+        flow.settle(4, ONE, 3);
+        bench.due("fault() behind other calls", flow.fault(), 6);
+        bench.typeAll(flow, "x=1;g=x;z");
+        Bench.answer(() -> flow.compile());
+        bench.due("fault() at the tape's last character", flow.fault(), 8);
+        bench.typeAll(flow, "x=" + "001/01x^1x^1x^1x^1x^1x^1+".repeat(9) + "1/01+1/02-1/0");
+        Bench.answer(() -> flow.compile());
+        bench.due("fault() at 239 of 240", flow.fault(), 239);
+        bench.typeAll(flow, "x=" + "001/01x^1x^1x^1x^1x^1x^1+".repeat(9) + "1/01+1/02-1/3");
+        Bench.answer(() -> flow.compile());
+        bench.due("fault() at the length 240", flow.fault(), 240);
     }
 
     // ---- promise 5
 
+    /** "Letter v (0 x, 1 y, 2 z) begins between low and high" */
     private static void beginSetsALetter() {
-        BoxFlow flow = flowOf("x=1;y=2;g=y-1;", 4, ONE, 3);
+        BoxFlow flow = bench.flowOf("x=1;y=2;z=3;g=y-1;");
+        bench.due("begin of z", flow.begin(2, -3, 4), true);
+        bench.due("begin of y", flow.begin(1, 3 * ONE, 3 * ONE + 7), true);
+        bench.dueBox(flow, 0, 0, 0, 0, 0, 0);
+        bench.dueBox(flow, 0, 1, 3 * ONE, 3 * ONE + 7, 3 * ONE, 3 * ONE + 7);
+        bench.dueBox(flow, 0, 2, -3, 4, -3, 4);
+        bench.dueBox(flow, 0, 3, 0, 1);
+        bench.due("begin of x at a point", flow.begin(0, -5, -5), true);
+        bench.dueBox(flow, 0, 0, -5, -5, -5, -5);
+        bench.dueBox(flow, 0, 1, 3 * ONE, 3 * ONE + 7, 3 * ONE, 3 * ONE + 7);
+        bench.due("begin of x at the LIMIT", flow.begin(0, -LIMIT, LIMIT), true);
+        bench.dueBox(flow, 0, 0, -LIMIT, LIMIT, -LIMIT, LIMIT);
+        bench.due("begin of x at the LIMIT below", flow.begin(0, -LIMIT, -LIMIT), true);
+        bench.due("begin of x at the LIMIT above", flow.begin(0, LIMIT, LIMIT), true);
+        bench.dueBox(flow, 0, 0, LIMIT, LIMIT, LIMIT, LIMIT);
+    }
+
+    /** "the run begins anew: true" */
+    private static void beginBeginsTheRunAnew() {
+        BoxFlow flow = bench.flowOf("x=1;y=2;g=y-1/4;", 4, ONE, 3);
         flow.step(2);
-        check.due("begin of y", flow.begin(1, 3 * ONE, 3 * ONE + 7), true);
-        dueState("begun", flow, 0, 3, 1, 0, 0, 0);
-        dueBox(flow, 0, 0, 0, 0, 0, 0);
-        dueBox(flow, 0, 1, 3 * ONE, 3 * ONE + 7, 3 * ONE, 3 * ONE + 7);
-        dueBox(flow, 0, 3, 0, 1);
-        check.due("begin at the LIMIT", flow.begin(0, -LIMIT, LIMIT), true);
-        dueBox(flow, 0, 0, -LIMIT, LIMIT, -LIMIT, LIMIT);
-        dueBox(flow, 0, 1, 3 * ONE, 3 * ONE + 7);
-        check.due("begin of x", flow.begin(0, -5, -5), true);
-        flow.step(2);
-        check.due("begin of no letter", flow.begin(2, 0, 0), false);
-        check.due("begin of no letter", flow.begin(3, 0, 0), false);
-        check.due("begin of no letter", flow.begin(-1, 0, 0), false);
-        check.due("begin with low above high", flow.begin(0, 1, 0), false);
-        check.due("begin below the LIMIT", flow.begin(0, -LIMIT - 1, 0), false);
-        check.due("begin above the LIMIT", flow.begin(0, 0, LIMIT + 1), false);
-        check.due("begin far beyond", flow.begin(0, Integer.MIN_VALUE, Integer.MAX_VALUE), false);
-        dueState("the run goes on", flow, ONE / 4, 3, 3, 0, 2, 0);
-        dueBox(flow, 0, 0, -5, -5);
+        bench.dueState("two steps", flow, ONE / 4, 3, 3, 0, 2, 1);
+        bench.due("begin with what it had", flow.begin(0, 0, 0), true);
+        bench.dueState("begun", flow, 0, 3, 1, 0, 0, 0);
+        bench.dueNoBox(flow, 1, 0, 0);
+        bench.dueNoCrossing(flow, 0, 0);
+        bench.dueCoefficient(flow, 1, 0, 0, 0);
+        bench.due("step(200)", flow.step(200), 8);
+    }
+
+    /** "false if there is none such, low is above high, or one is beyond the LIMIT" */
+    private static void beginIsRefused() {
+        int[][] wrong = {{2, 0, 0}, {3, 0, 0}, {-1, 0, 0}, {LEAST, 0, 0}, {MOST, 0, 0}, {0, 1, 0}, {0, -4, -5},
+            {0, LIMIT, -LIMIT}, {0, -LIMIT - 1, 0}, {0, 0, LIMIT + 1}, {1, LIMIT + 1, LIMIT + 1},
+            {1, -LIMIT - 1, -LIMIT - 1}, {1, LEAST, MOST}, {0, LEAST, 0}, {0, 0, MOST}, {0, MOST, LEAST}};
+        for (int[] w : wrong) {
+            String call = "begin(" + w[0] + ", " + w[1] + ", " + w[2] + ")";
+            dueNothingChanged(call, flow -> bench.due(call, flow.begin(w[0], w[1], w[2]), false));
+        }
+        BoxFlow one = bench.flowOf("x=1;");
+        bench.due("begin of y without its SIDE", one.begin(1, 0, 0), false);
+        BoxFlow three = bench.flowOf("x=1;y=1;z=1;");
+        bench.due("begin of z", three.begin(2, 0, 0), true);
+        bench.due("begin of no letter", three.begin(3, 0, 0), false);
     }
 
     // ---- promise 6
 
-    private static void settleSetsTheRun() {
-        BoxFlow flow = flowOf("x=1;", 4, ONE, 3, 7, 9);
-        flow.step(2);
-        int[][] wrong = {{0, 16, 0}, {9, 16, 0}, {-1, 16, 0}, {1, 8, 0}, {1, 15, 0}, {1, -16, 0}, {1, (1 << 26) + 16, 0},
-            {1, 16, -1}, {1, 16, 11}, {1, Integer.MIN_VALUE, 0}};
-        for (int[] w : wrong) {
-            check.due("settle(" + w[0] + ", " + w[1] + ", " + w[2] + ")", flow.settle(w[0], w[1], w[2]), false);
-        }
-        dueState("the run goes on", flow, ONE / 4, 3, 3, 0, 2, 0);
-        check.due("settle(1, 0, 0)", flow.settle(1, 0, 0), true);
-        dueState("anew", flow, 0, 0, 1, 0, 0, 0);
-        dueBox(flow, 0, 0, 7, 9, 7, 9);
-        check.due("step(1) with HORIZON 0", flow.step(1), 0);
-        check.due("settle(8, 2^26, 10)", flow.settle(8, 1 << 26, 10), true);
-        dueState("anew", flow, 0, 10, 1, 0, 0, 0);
-        check.due("step(1)", flow.step(1), 1);
-        dueState("stepped", flow, 1024, 10, 2, 0, 1, 0);
-        check.due("settle(1, 2^26, 0)", flow.settle(1, 1 << 26, 0), true);
-        check.due("step(200)", flow.step(200), 64);
-        dueState("at the farthest HORIZON", flow, 1 << 26, 0, 65, 0, 64, 0);
-        orderCounts();
+    /** "ORDER, HORIZON, COARSENESS; the run begins anew: true" */
+    private static void settleBeginsTheRunAnew() {
+        BoxFlow flow = bench.flowOf("x=1;g=x-1/4;", 4, ONE, 3, 7, 9);
+        flow.step(3);
+        bench.dueState("three steps", flow, 3 * ONE / 8, 3, 4, 0, 3, 1);
+        bench.due("settle with what it had", flow.settle(4, ONE, 3), true);
+        bench.dueState("anew", flow, 0, 3, 1, 0, 0, 0);
+        bench.dueBox(flow, 0, 0, 7, 9, 7, 9);
+        bench.dueNoBox(flow, 1, 0, 0);
+        bench.dueNoCrossing(flow, 0, 0);
+        bench.due("settle(1, 0, 0)", flow.settle(1, 0, 0), true);
+        bench.dueState("anew", flow, 0, 0, 1, 0, 0, 0);
+        bench.due("settle(8, 2^26, 10)", flow.settle(8, 1 << 26, 10), true);
+        bench.dueState("anew", flow, 0, 10, 1, 0, 0, 0);
+        bench.dueStep(flow);
+        bench.dueState("stepped", flow, 1024, 10, 2, 0, 1, 0);
     }
 
-    /** x=x from 1 with one step of 1/2: the rest is of the size of the number behind the last one, and sinks. */
-    private static void orderCounts() {
-        long last = Long.MAX_VALUE;
-        for (int order = 1; order <= 6; order++) {
-            BoxFlow flow = flowOf("x=x;", order, ONE / 2, 1, ONE, ONE);
-            flow.step(1);
-            long width = flow.box(1, 0, 1) - flow.box(1, 0, 0);
-            check.due("a greater ORDER makes a lesser box: " + width + " < " + last, width < last, true);
-            boolean holds = flow.box(1, 0, 0) <= 1728810 && flow.box(1, 0, 1) >= 1728811;
-            check.due("the box of ORDER " + order + " holds the root of e", holds, true);
-            last = width;
+    /** "false if one is not as told" */
+    private static void settleIsRefused() {
+        int[][] wrong = {{0, 16, 0}, {9, 16, 0}, {-1, 16, 0}, {LEAST, 16, 0}, {MOST, 16, 0}, {1, 8, 0}, {1, 15, 0},
+            {1, 17, 0}, {1, -16, 0}, {1, (1 << 26) + 16, 0}, {1, LEAST, 0}, {1, MOST, 0}, {1, 16, -1}, {1, 16, 11},
+            {1, 16, LEAST}, {1, 16, MOST}, {0, 15, 11}};
+        for (int[] w : wrong) {
+            String call = "settle(" + w[0] + ", " + w[1] + ", " + w[2] + ")";
+            dueNothingChanged(call, flow -> bench.due(call, flow.settle(w[0], w[1], w[2]), false));
         }
+        bench.dueAsIfNotCalled("settle without a problem", () -> withoutAProblem(), flow ->
+            bench.due("settle(9, 16, 0)", flow.settle(9, 16, 0), false));
     }
 
     // ---- promise 7
 
+    /** "At most n STEPS .. : how many were done."; "n is not 1 .. 200" */
+    private static void stepDoesAtMostN() {
+        BoxFlow flow = bench.flowOf("x=1;", 4, ONE, 10);
+        bench.due("step(1)", flow.step(1), 1);
+        bench.dueState("one step", flow, 1024, 10, 2, 0, 1, 0);
+        bench.due("step(200)", flow.step(200), 200);
+        bench.dueState("201 steps", flow, 201 * 1024, 10, 202, 0, 201, 0);
+        bench.due("step(199)", flow.step(199), 199);
+        bench.due("step(2)", flow.step(2), 2);
+        bench.dueState("402 steps", flow, 402 * 1024, 10, 403, 0, 402, 0);
+    }
+
+    /** "until the HORIZON is come to" */
     private static void stepGoesToTheHorizon() {
-        BoxFlow flow = flowOf("x=1;", 3, 16000, 0, 100, 200);
-        check.due("step(2)", flow.step(2), 2);
-        dueState("two steps", flow, 8192 + 4096, 8, 3, 0, 2, 0);
-        check.due("step(200)", flow.step(200), 4);
-        dueState("at the HORIZON", flow, 16000, 13, 7, 0, 6, 0);
-        dueBox(flow, 6, 0, 16100, 16200, 15972, 16200);
-        check.due("step(1) at the HORIZON", flow.step(1), 0);
-        dueState("still there", flow, 16000, 13, 7, 0, 6, 0);
-        BoxFlow fine = flowOf("x=-1/2;", 1, 16, 0);
-        check.due("step(200)", fine.step(200), 1);
-        dueState("the finest step", fine, 16, 16, 2, 0, 1, 0);
-        dueBox(fine, 1, 0, -8, -8, -8, 0);
+        BoxFlow flow = bench.flowOf("x=1;", 3, 16000, 0, 100, 200);
+        bench.due("step(2)", flow.step(2), 2);
+        bench.dueState("two steps", flow, 8192 + 4096, 8, 3, 0, 2, 0);
+        bench.due("step(200)", flow.step(200), 4);
+        bench.dueState("at the HORIZON", flow, 16000, 13, 7, 0, 6, 0);
+        bench.dueBox(flow, 6, 0, 16100, 16200, 15972, 16200);
+        bench.due("step(1) at the HORIZON", flow.step(1), 0);
+        bench.due("step(200) at the HORIZON", flow.step(200), 0);
+        bench.dueState("still there", flow, 16000, 13, 7, 0, 6, 0);
+        flow.settle(3, 4 * ONE, 0);
+        bench.due("step(4) that ends there", flow.step(4), 4);
+        bench.due("step(1) at the HORIZON", flow.step(1), 0);
+        BoxFlow fine = bench.flowOf("x=-1/2;", 1, 16, 0);
+        bench.due("step(200)", fine.step(200), 1);
+        bench.dueState("the finest step", fine, 16, 16, 2, 0, 1, 0);
+        bench.dueBox(fine, 1, 0, -8, -8, -8, 0);
     }
 
-    private static void stepThrows() {
-        BoxFlow flow = flowOf("x=1;", 4, ONE, 10);
-        for (int n : new int[] {0, -1, 201, Integer.MIN_VALUE, Integer.MAX_VALUE}) {
-            check.dueThrow("step(" + n + ")", () -> flow.step(n), IllegalArgumentException.class);
+    /** "IllegalStateException: there is no problem" */
+    private static void stepWithoutAProblem() {
+        for (int n : new int[] {1, 200, 0, 201}) {
+            bench.dueAsIfNotCalled("step(" + n + ") without a problem", () -> withoutAProblem(), flow ->
+                bench.dueThrow("step(" + n + ")", () -> flow.step(n), IllegalStateException.class));
         }
-        dueState("nothing done", flow, 0, 10, 1, 0, 0, 0);
-        check.due("step(200)", flow.step(200), 200);
-        check.due("step(1)", flow.step(1), 1);
-        flow.settle(4, 0, 0);
-        check.dueThrow("step(201) at the HORIZON", () -> flow.step(201), IllegalArgumentException.class);
+        BoxFlow flow = new BoxFlow();
+        flow.settle(4, 0, 4);
+        bench.dueThrow("step(1) with the HORIZON 0", () -> flow.step(1), IllegalStateException.class);
     }
 
-    private static void stepIsRefusedAsFailed() {
-        StringBuilder tape = new StringBuilder("x=999x^4x^2");
-        for (int i = 1; i < 12; i++) {
-            tape.append(i % 2 == 0 ? "+" : "-").append("999x^4x^2");
-        }
-        BoxFlow flow = flowOf(tape.append(";").toString(), 1, 16, 0, ONE, ONE);
-        for (int time = 1; time <= 2; time++) {
-            check.dueThrow("step(1)", () -> flow.step(1), ArithmeticException.class);
-            dueState("FAILED", flow, 0, 0, 1, 1, time, 0);
-        }
-        dueBox(flow, 0, 0, ONE, ONE, ONE, ONE);
-        check.due("begin", flow.begin(0, 0, 0), true);
-        dueState("anew", flow, 0, 0, 1, 0, 0, 0);
-        check.due("step(1)", flow.step(1), 1);
-        dueState("not REFUSED", flow, 16, 16, 2, 0, 1, 0);
+    /** "ArithmeticException: one was REFUSED (those ahead of it are done)" */
+    private static void stepIsRefusedBehindOthers() {
+        BoxFlow flow = bench.flowOf("x=999;g=x-300;", 4, 1 << 22, 2);
+        BoxFlow other = bench.flowOf("x=999;g=x-300;", 4, 1 << 22, 2);
+        bench.dueThrow("step(200)", () -> flow.step(200), ArithmeticException.class);
+        bench.dueState("BEYOND behind three steps", flow, 3 * ONE / 4, 2, 4, 2, 4, 1);
+        bench.dueBox(flow, 3, 0, 999 * (3 * ONE / 4), 999 * (3 * ONE / 4), 999 * (ONE / 2), 999 * (3 * ONE / 4));
+        bench.dueNoBox(flow, 4, 0, 0);
+        bench.due("step(3): just those", other.step(3), 3);
+        bench.due("those ahead of it are done", Bench.lookAtRun(flow, 0, 1, 2, 5), Bench.lookAtRun(other, 0, 1, 2, 5));
+        bench.dueThrow("step(1)", () -> other.step(1), ArithmeticException.class);
+        bench.dueAlike("the step that is REFUSED alone", flow, other);
     }
 
-    private static void stepIsRefusedAsBeyond() {
-        BoxFlow flow = flowOf("x=999;", 4, 1 << 22, 1, 0, 0);
-        check.dueThrow("step(200)", () -> flow.step(200), ArithmeticException.class);
-        dueState("BEYOND behind one step", flow, ONE / 2, 1, 2, 2, 2, 0);
-        dueBox(flow, 1, 0, 999 * (ONE / 2), 999 * (ONE / 2), 0, 999 * (ONE / 2));
-        flow.settle(4, 48, 0);
-        flow.begin(0, LIMIT, LIMIT);
-        check.dueThrow("step(1)", () -> flow.step(1), ArithmeticException.class);
-        dueState("the SHIFT has not grown", flow, 0, 0, 1, 2, 1, 0);
-        // The first widening of this one comes to the LIMIT itself, or one above it.
-        BoxFlow edge = flowOf("x=0;", 1, 16, 0, LIMIT - 2, LIMIT - 2);
-        check.due("step(1): widened to the LIMIT less 1", edge.step(1), 1);
-        edge.begin(0, LIMIT - 1, LIMIT - 1);
-        check.due("step(1): widened to the LIMIT", edge.step(1), 1);
-        edge.begin(0, LIMIT, LIMIT);
-        check.dueThrow("step(1): widened beyond it", () -> edge.step(1), ArithmeticException.class);
-        edge.begin(0, -LIMIT + 1, -LIMIT + 1);
-        check.due("step(1): widened to the LIMIT below 0", edge.step(1), 1);
-        edge.begin(0, -LIMIT, -LIMIT);
-        check.dueThrow("step(1): widened beyond it below 0", () -> edge.step(1), ArithmeticException.class);
-    }
-
-    /** Told by the tries: a step with one try has not had the SHIFT grow, as long as the HORIZON is far. */
-    private static void shiftGetsLessBehindThreeCalmSteps() {
-        BoxFlow flow = flowOf("x=8-8x;", 4, 1 << 26, 2, ONE, ONE);
-        int inARow = 0;
-        int grown = 0;
-        int lessened = 0;
-        for (int i = 0; i < 20; i++) {
-            int shift = flow.state(1);
-            int tries = flow.state(4);
-            flow.step(1);
-            int more = flow.state(4) - tries - 1;
-            int due = shift + more;
-            inARow = more > 0 ? 0 : inARow + 1;
-            grown += more;
-            if (inARow == 3) {
-                inARow = 0;
-                lessened += due > 2 ? 1 : 0;
-                due -= due > 2 ? 1 : 0;
-            }
-            check.due("state(1) behind step " + i, flow.state(1), due);
+    /** "IllegalArgumentException: n is not 1 .. 200" */
+    private static void stepWithAWrongN() {
+        for (int n : new int[] {0, -1, 201, 202, LEAST, MOST}) {
+            dueNothingChanged("step(" + n + ")", flow ->
+                bench.dueThrow("step(" + n + ")", () -> flow.step(n), IllegalArgumentException.class));
         }
-        check.due("the SHIFT has grown and got less", grown > 2 && lessened > 2, true);
+        BoxFlow there = bench.flowOf("x=1;", 4, 0, 0);
+        bench.dueThrow("step(0) at the HORIZON", () -> there.step(0), IllegalArgumentException.class);
+        bench.dueThrow("step(201) at the HORIZON", () -> there.step(201), IllegalArgumentException.class);
+        BoxFlow beyond = bench.flowOf("x=0;", 4, ONE, 0, LIMIT, LIMIT);
+        bench.dueThrow("step(201) that would be REFUSED", () -> beyond.step(201), IllegalArgumentException.class);
+        bench.dueState("not tried", beyond, 0, 0, 1, 0, 0, 0);
     }
 
     // ---- promise 8
 
     private static void stateAnswers() {
-        BoxFlow flow = flowOf("x=1;g=x-1/2;", 4, ONE, 2, 0, 0);
-        for (int what : new int[] {-1, 6, 7, Integer.MIN_VALUE, Integer.MAX_VALUE}) {
-            check.due("state(" + what + ")", flow.state(what), BoxFlow.NONE);
-        }
-        dueState("begun", flow, 0, 2, 1, 0, 0, 0);
+        BoxFlow flow = bench.flowOf("x=1;g=x-1/2;", 4, ONE, 2);
+        bench.dueState("begun", flow, 0, 2, 1, 0, 0, 0);
         flow.step(3);
-        dueState("three steps", flow, 3 * ONE / 4, 2, 4, 0, 3, 1);
+        bench.dueState("three steps", flow, 3 * ONE / 4, 2, 4, 0, 3, 1);
+    }
+
+    /** "NONE for another what." */
+    private static void stateOfNone() {
+        BoxFlow flow = bench.flowOf("x=1;");
+        BoxFlow fresh = new BoxFlow();
+        for (int what : new int[] {LEAST, -1, 6, 7, MOST}) {
+            bench.due("state(" + what + ")", flow.state(what), NONE);
+            bench.due("state(" + what + ") without a problem", fresh.state(what), NONE);
+        }
+    }
+
+    /** "3: why the latest step was REFUSED: 0 it was not, 1 FAILED, 2 BEYOND" */
+    private static void stateTellsWhy() {
+        BoxFlow flow = bench.flowOf("x=999;", 4, 1 << 22, 1);
+        bench.due("state(3) without a step", flow.state(3), 0);
+        bench.dueStep(flow);
+        bench.due("state(3) behind a step", flow.state(3), 0);
+        bench.dueRefused(flow, 2);
+        bench.dueThrow("step(0)", () -> flow.step(0), IllegalArgumentException.class);
+        bench.due("state(3): a wrong n is no step", flow.state(3), 2);
+        flow.settle(9, 0, 0);
+        flow.begin(0, 1, 0);
+        bench.due("state(3) behind refused calls", flow.state(3), 2);
+        bench.due("begin", flow.begin(0, 0, 0), true);
+        bench.due("state(3) of a run that begins anew", flow.state(3), 0);
+        bench.dueStep(flow);
+        bench.dueRefused(flow, 2);
+        bench.typeAll(flow, "x=999x^4x^2" + "-999x^4x^2+999x^4x^2".repeat(5) + "-999x^4x^2;");
+        bench.due("compile()", flow.compile(), 1);
+        bench.due("state(3) of a run that begins anew", flow.state(3), 0);
+        flow.settle(1, 16, 0);
+        flow.begin(0, ONE, ONE);
+        bench.dueRefused(flow, 1);
+        flow.settle(1, 16, 0);
+        bench.due("state(3) of a run that begins anew", flow.state(3), 0);
     }
 
     // ---- promise 9
 
+    /** "letter v: its low end (what 0), high end (1), of the PROVED box .. (2, 3 ..); v = 3: its time (what 0), sign (1)" */
     private static void boxAnswers() {
-        BoxFlow flow = flowOf("x=1;y=-1;g=x+y-1;", 4, ONE, 2, 10, 20, -7, -7);
-        check.due("step(2)", flow.step(2), 2);
-        dueBox(flow, 0, 0, 10, 20, 10, 20);
-        dueBox(flow, 0, 1, -7, -7, -7, -7);
-        dueBox(flow, 0, 3, 0, -1);
-        dueBox(flow, 1, 0, ONE / 4 + 10, ONE / 4 + 20, 10, ONE / 4 + 20);
-        dueBox(flow, 1, 1, -ONE / 4 - 7, -ONE / 4 - 7, -ONE / 4 - 7, -7);
-        dueBox(flow, 2, 3, ONE / 2, -1);
-        int[][] wrong = {{-1, 0, 0}, {3, 0, 0}, {3, 3, 0}, {0, 2, 0}, {0, -1, 0}, {0, 4, 0}, {0, 0, -1}, {0, 0, 4},
-            {0, 3, 2}, {0, 3, 3}, {0, 3, -1}, {Integer.MIN_VALUE, 0, 0}, {Integer.MAX_VALUE, 0, 0},
-            {0, Integer.MAX_VALUE, 0}, {0, 0, Integer.MAX_VALUE}};
-        for (int[] w : wrong) {
-            dueNoBox(flow, w[0], w[1], w[2]);
-        }
-        flow.begin(0, 0, 0);
-        dueNoBox(flow, 1, 0, 0);
-        BoxFlow three = flowOf("x=1;y=1;z=1;", 1, ONE, 2, 0, 0, 0, 0, 3, 4);
+        BoxFlow flow = bench.flowOf("x=1;y=-1;g=x+y-1;", 4, ONE, 2, 10, 20, -7, -7);
+        bench.due("step(2)", flow.step(2), 2);
+        bench.dueBox(flow, 1, 0, ONE / 4 + 10, ONE / 4 + 20, 10, ONE / 4 + 20);
+        bench.dueBox(flow, 1, 1, -ONE / 4 - 7, -ONE / 4 - 7, -ONE / 4 - 7, -7);
+        bench.dueBox(flow, 2, 0, ONE / 2 + 10, ONE / 2 + 20, ONE / 4 + 10, ONE / 2 + 20);
+        bench.dueBox(flow, 2, 3, ONE / 2, -1);
+        BoxFlow three = bench.flowOf("x=1;y=1;z=1;", 1, ONE, 2, 0, 0, 0, 0, 3, 4);
         three.step(1);
-        dueBox(three, 1, 2, ONE / 4 + 3, ONE / 4 + 4, 3, ONE / 4 + 4);
-        dueBox(three, 1, 3, ONE / 4, 0);
+        bench.dueBox(three, 1, 2, ONE / 4 + 3, ONE / 4 + 4, 3, ONE / 4 + 4);
+        bench.dueBox(three, 1, 3, ONE / 4, 0);
     }
 
-    private static void boxesBehindTheFirst400() {
-        BoxFlow flow = flowOf("x=1;g=x-1/3;", 1, ONE, 10, 0, 0);
-        check.due("step(200)", flow.step(200), 200);
-        check.due("step(200)", flow.step(199), 199);
-        dueBox(flow, 399, 0, 399 * 1024, 399 * 1024, 398 * 1024, 399 * 1024);
-        dueBox(flow, 399, 3, 399 * 1024, 1);
-        check.due("step(200)", flow.step(200), 200);
-        dueState("600 boxes", flow, 599 * 1024, 10, 600, 0, 599, 1);
-        dueBox(flow, 399, 0, 399 * 1024, 399 * 1024, 398 * 1024, 399 * 1024);
-        dueNoBox(flow, 400, 0, 0);
-        dueNoBox(flow, 599, 3, 0);
-        dueCoefficient(flow, 0, 0, 599 * 1024, 599 * 1024);
+    /** "(.. of the first one its own)" */
+    private static void boxOfTheFirstIsItsOwn() {
+        BoxFlow flow = bench.flowOf("x=1;y=-1;g=x+y-1;", 4, ONE, 2, 10, 20, -7, -7);
+        flow.step(2);
+        bench.dueBox(flow, 0, 0, 10, 20, 10, 20);
+        bench.dueBox(flow, 0, 1, -7, -7, -7, -7);
+        bench.dueBox(flow, 0, 3, 0, -1);
+    }
+
+    /** "IndexOutOfBoundsException: there is none such." */
+    private static void boxThereIsNone() {
+        BoxFlow flow = bench.flowOf("x=1;y=-1;g=x+y-1;", 4, ONE, 2);
+        flow.step(2);
+        int[][] wrong = {{-1, 0, 0}, {3, 0, 0}, {-1, 3, 0}, {3, 3, 0}, {0, -1, 0}, {0, 2, 0}, {0, 4, 0}, {0, 0, -1},
+            {0, 0, 4}, {0, 1, 4}, {0, 3, -1}, {0, 3, 2}, {0, 3, 3}, {0, 4, 1}, {LEAST, 0, 0}, {MOST, 0, 0}, {0, LEAST, 0},
+            {0, MOST, 0}, {0, 0, LEAST}, {0, 0, MOST}, {2, 2, 3}, {LEAST, 3, 0}, {MOST, 3, 1}};
+        for (int[] w : wrong) {
+            bench.dueNoBox(flow, w[0], w[1], w[2]);
+        }
+        bench.dueBox(flow, 2, 1, -ONE / 2, -ONE / 2, -ONE / 2, -ONE / 4);
+        flow.begin(0, 0, 0);
+        bench.dueNoBox(flow, 1, 0, 0);
+        for (int sides = 1; sides <= 3; sides++) {
+            BoxFlow some = bench.flowOf("x=1;y=1;z=1;".substring(0, 4 * sides));
+            bench.dueBox(some, 0, sides - 1, 0, 0, 0, 0);
+            bench.dueBox(some, 0, 3, 0, 0);
+            if (sides < 3) {
+                bench.dueNoBox(some, 0, sides, 0);
+            }
+        }
+    }
+
+    /** "Box i of the tape (0 the first; the first 400 are kept)" */
+    private static void boxKeepsTheFirst400() {
+        BoxFlow flow = bench.flowOf("x=1;g=x-1/3;", 1, ONE, 10);
+        bench.due("step(200)", flow.step(200), 200);
+        bench.due("step(198)", flow.step(198), 198);
+        bench.dueBox(flow, 398, 3, 398 * 1024, 1);
+        bench.dueNoBox(flow, 399, 3, 0);
+        bench.dueStep(flow);
+        bench.dueState("400 boxes", flow, 399 * 1024, 10, 400, 0, 399, 1);
+        bench.dueBox(flow, 399, 0, 399 * 1024, 399 * 1024, 398 * 1024, 399 * 1024);
+        bench.dueStep(flow);
+        bench.dueState("401 boxes", flow, 400 * 1024, 10, 401, 0, 400, 1);
+        bench.dueNoBox(flow, 400, 0, 0);
+        bench.dueNoBox(flow, 400, 3, 0);
+        bench.due("step(200)", flow.step(200), 200);
+        bench.dueState("601 boxes", flow, 600 * 1024, 10, 601, 0, 600, 1);
+        bench.dueBox(flow, 0, 0, 0, 0, 0, 0);
+        bench.dueBox(flow, 399, 0, 399 * 1024, 399 * 1024, 398 * 1024, 399 * 1024);
+        bench.dueBox(flow, 399, 3, 399 * 1024, 1);
+        bench.dueNoBox(flow, 400, 0, 0);
+        bench.dueNoBox(flow, 600, 3, 0);
+        bench.dueCoefficient(flow, 0, 0, 600 * 1024, 600 * 1024);
+        flow.begin(0, 5, 5);
+        bench.dueStep(flow);
+        bench.dueBox(flow, 1, 0, 1029, 1029, 5, 1029);
+        bench.dueNoBox(flow, 2, 0, 0);
     }
 
     // ---- promise 10
 
+    /** "CROSSING i, from 0 on .., what 0: the number of the earlier box, 1: of the later one, 2: the later one's sign." */
     private static void crossingAnswers() {
-        BoxFlow flow = flowOf("x=1;g=-x^2+x-2/9;", 4, ONE, 4, 0, 0);
-        check.due("step(200)", flow.step(200), 16);
-        check.due("state(5)", flow.state(5), 2);
-        int[][] due = {{5, 6, 1}, {10, 11, -1}};
-        for (int i = 0; i < due.length; i++) {
-            for (int what = 0; what < 3; what++) {
-                check.due("crossing(" + i + ", " + what + ")", flow.crossing(i, what), due[i][what]);
-            }
-        }
-        int[][] wrong = {{-1, 0}, {2, 0}, {0, -1}, {0, 3}, {Integer.MIN_VALUE, 0}, {Integer.MAX_VALUE, 2},
-            {0, Integer.MAX_VALUE}};
+        BoxFlow flow = bench.flowOf("x=1;g=-x^2+x-2/9;", 4, ONE, 4);
+        bench.due("step(10)", flow.step(10), 10);
+        bench.due("state(5)", flow.state(5), 1);
+        bench.dueCrossing(flow, 0, 5, 6, 1);
+        bench.dueNoCrossing(flow, 1, 0);
+        bench.dueStep(flow);
+        bench.due("state(5)", flow.state(5), 2);
+        bench.dueCrossing(flow, 0, 5, 6, 1);
+        bench.dueCrossing(flow, 1, 10, 11, -1);
+    }
+
+    /** "IndexOutOfBoundsException: there is none such." */
+    private static void crossingThereIsNone() {
+        BoxFlow flow = bench.flowOf("x=1;g=-x^2+x-2/9;", 4, ONE, 4);
+        bench.dueNoCrossing(flow, 0, 0);
+        flow.step(200);
+        int[][] wrong = {{-1, 0}, {2, 0}, {2, 2}, {0, -1}, {0, 3}, {1, 3}, {LEAST, 0}, {MOST, 2}, {0, LEAST}, {0, MOST}};
         for (int[] w : wrong) {
-            dueNoCrossing(flow, w[0], w[1]);
+            bench.dueNoCrossing(flow, w[0], w[1]);
         }
         flow.begin(0, 0, 0);
-        check.due("state(5) anew", flow.state(5), 0);
-        dueNoCrossing(flow, 0, 0);
+        bench.due("state(5) anew", flow.state(5), 0);
+        bench.dueNoCrossing(flow, 0, 0);
     }
 
-    private static void crossingsPassOverZeros() {
-        // From 0 by eighths: 0 at 1/2 and only there; with a wide box also around it.
-        BoxFlow flow = flowOf("x=1;g=x-1/2;", 4, ONE, 3, 0, 0);
-        flow.step(8);
-        check.due("crossing(0, 0)", flow.crossing(0, 0), 3);
-        check.due("crossing(0, 1)", flow.crossing(0, 1), 5);
-        check.due("crossing(0, 2)", flow.crossing(0, 2), 1);
-        dueBox(flow, 4, 3, ONE / 2, 0);
-        flow.begin(0, 0, ONE / 4);
-        flow.step(8);
-        check.due("crossing(0, 0)", flow.crossing(0, 0), 1);
-        check.due("crossing(0, 1)", flow.crossing(0, 1), 5);
-        // Touching 0 and turning back is none.
-        BoxFlow back = flowOf("x=1;g=x^2-x+1/4;", 4, ONE, 3, 0, 0);
-        back.step(8);
-        dueBox(back, 4, 3, ONE / 2, 0);
-        dueBox(back, 5, 3, 5 * ONE / 8, 1);
-        check.due("state(5)", back.state(5), 0);
-        signsAtTheLimit();
-    }
-
-    private static void signsAtTheLimit() {
-        String[] tapes = {"x=0;g=x;", "x=0;g=-x;", "x=0;g=x^2;", "x=0;g=x+x;", "x=0;g=x+x-x;", "x=0;g=x-x+x;", "x=0;g=1;",
-            "x=0;g=0;"};
-        int[] signs = {1, -1, 0, 0, 0, 1, 1, 0};
-        for (int i = 0; i < tapes.length; i++) {
-            BoxFlow flow = flowOf(tapes[i], 4, ONE, 4, LIMIT, LIMIT);
-            check.due("box(0, 3, 1) of " + tapes[i], flow.box(0, 3, 1), signs[i]);
-        }
-        BoxFlow flow = flowOf("x=0;g=x;", 4, ONE, 4, 0, 5);
-        dueBox(flow, 0, 3, 0, 0);
-        flow.begin(0, 1, 5);
-        dueBox(flow, 0, 3, 0, 1);
-        flow.begin(0, -5, 0);
-        dueBox(flow, 0, 3, 0, 0);
-        flow.begin(0, -5, -1);
-        dueBox(flow, 0, 3, 0, -1);
-    }
-
-    /** y is near to a Chebyshev polynomial of x, z swings with one of y, and g has six zeros on each swing. */
-    private static void crossingsBehindTheFirst100() {
+    /**
+     * "(the first 100 are kept)". y is near to a Chebyshev polynomial of x, z swings with one of y, and g has six zeros on
+     * each swing: 106 CROSSINGS in 1035 steps. The model tells what is due.
+     */
+    private static void crossingKeepsTheFirst100() {
         String tape = "x=1/16;y=432x^4x^2-540x^4+162x^2-27/4;z=1/64y^3-14/5y;g=1/80z^4z^2-17/96z^4+21/62z^2-1/30;";
         int[] ends = {-1013568, 3894113, 1936689};
-        BoxFlow flow = flowOf(tape, 3, 1 << 25, 5);
+        BoxFlow flow = bench.flowOf(tape, 3, 1 << 25, 5);
         Model model = new Model();
         model.tape.append(tape);
         model.compile();
@@ -526,83 +696,132 @@ public final class PromiseTest {
             flow.begin(v, ends[v], ends[v]);
             model.begin(v, ends[v], ends[v]);
         }
-        for (int i = 0; i < 5; i++) {
-            check.due("step(200)", flow.step(200), model.step(200));
+        stepToCrossing(flow, model, 99);
+        bench.dueNoCrossing(flow, 99, 0);
+        stepToCrossing(flow, model, 100);
+        bench.dueCrossing(flow, 99, model.crossing(99, 0), model.crossing(99, 1), model.crossing(99, 2));
+        bench.due("crossing(99, 0) lies behind the boxes that are kept", flow.crossing(99, 0) > 400, true);
+        stepToCrossing(flow, model, 101);
+        bench.dueNoCrossing(flow, 100, 0);
+        stepToCrossing(flow, model, 106);
+        bench.dueNoCrossing(flow, 100, 0);
+        bench.dueNoCrossing(flow, 105, 2);
+        for (int i = 0; i < 100; i += 9) {
+            bench.dueCrossing(flow, i, model.crossing(i, 0), model.crossing(i, 1), model.crossing(i, 2));
         }
-        check.due("step(35)", flow.step(35), model.step(35));
-        check.due("more than 100 crossings", flow.state(5) > 100, true);
+    }
+
+    private static void stepToCrossing(BoxFlow flow, Model model, int crossings) {
+        int steps = 0;
+        while (model.state(5) < crossings && model.step(1) == 1) {
+            steps++;
+        }
+        for (int left = steps; left > 0; left -= 200) {
+            bench.due("step", flow.step(Math.min(200, left)), Math.min(200, left));
+        }
         for (int what = 0; what < 6; what++) {
-            check.due("state(" + what + ")", flow.state(what), model.state(what));
+            bench.due("state(" + what + ")", flow.state(what), model.state(what));
         }
-        for (int i = 0; i < 100; i++) {
-            for (int what = 0; what < 3; what++) {
-                check.due("crossing(" + i + ", " + what + ")", flow.crossing(i, what), model.crossing(i, what));
-            }
-        }
-        check.due("crossing(99, 0) lies behind the boxes that are kept", flow.crossing(99, 0) > 400, true);
-        dueNoCrossing(flow, 100, 0);
-        dueNoCrossing(flow, flow.state(5) - 1, 2);
+        bench.due("state(5) counts all", flow.state(5), crossings);
     }
 
     // ---- promise 11
 
-    private static void coefficientRoundsOutward() {
-        BoxFlow flow = flowOf("x=x;", 4, ONE, 4, -3, 5);
-        dueCoefficient(flow, 0, 0, -3, 5);
-        dueCoefficient(flow, 0, 1, -3, 5);
-        dueCoefficient(flow, 0, 2, -2, 3);
-        dueCoefficient(flow, 0, 3, -1, 1);
-        dueCoefficient(flow, 0, 9, -1, 1);
-        dueCoefficient(flowOf("x=1/3;"), 0, 1, 349525, 349526);
-        dueCoefficient(flowOf("x=-1/3;"), 0, 1, -349526, -349525);
-        dueCoefficient(flowOf("x=-999/7;"), 0, 1, -149646775, -149646774);
-        dueCoefficient(flowOf("x=-1/2+1/3-1/4;"), 0, 1, -524288 + 349525 - 262144, -524288 + 349526 - 262144);
-        BoxFlow two = flowOf("x=xy;y=x-y;", 4, ONE, 4, -3, 5, 7, 9);
-        dueCoefficient(two, 0, 1, -1, 1);
-        dueCoefficient(two, 1, 1, -12, -2);
-        // Number 1 of x - y is (-1 .. 1) - (-12 .. -2).
-        dueCoefficient(two, 1, 2, 0, 7);
-        // The letters of x come first, whatever the order on the tape: 1 unit and a half round before the 4 comes.
-        for (String term : new String[] {"xyz", "zyx", "yzx"}) {
-            BoxFlow three = flowOf("x=" + term + ";y=0;z=0;", 4, ONE, 4, 1, 1, ONE / 2, ONE / 2, 4 * ONE, 4 * ONE);
-            dueCoefficient(three, 0, 1, 0, 4);
-        }
-        BoxFlow squared = flowOf("x=x^2;", 4, ONE, 4, ONE, ONE);
-        for (int k = 0; k <= 9; k++) {
-            dueCoefficient(squared, 0, k, ONE, ONE);
-        }
-        // A square is the product of an interval with itself, and is not known to be above 0.
-        dueCoefficient(flowOf("x=x^2;", 4, ONE, 4, -ONE, ONE), 0, 1, -ONE, ONE);
-        BoxFlow moved = flowOf("x=1;", 4, ONE, 4, 0, 0);
-        moved.step(3);
-        dueCoefficient(moved, 0, 0, 3 * ONE / 16, 3 * ONE / 16);
+    /** "Number k (0 .. 9) of the COEFFICIENTS of letter v over the present box: low or (high) high end." */
+    private static void coefficientIsOverThePresentBox() {
+        BoxFlow flow = bench.flowOf("x=2;y=x;", 4, ONE, 2, 0, 3, 0, 0);
+        bench.dueCoefficient(flow, 0, 0, 0, 3);
+        bench.dueCoefficient(flow, 1, 1, 0, 3);
+        flow.step(3);
+        bench.dueCoefficient(flow, 0, 0, 3 * ONE / 2, 3 * ONE / 2 + 3);
+        bench.dueCoefficient(flow, 1, 1, 3 * ONE / 2, 3 * ONE / 2 + 3);
+        bench.dueCoefficient(flow, 1, 2, ONE, ONE);
+        bench.dueCoefficient(flow, 1, 9, 0, 0);
+        flow.begin(0, 5, 6);
+        bench.dueCoefficient(flow, 0, 0, 5, 6);
+        // More numbers than the ORDER has can be asked for.
+        flow.settle(1, ONE, 2);
+        bench.dueCoefficient(flow, 1, 2, ONE, ONE);
+        bench.dueCoefficient(flow, 1, 9, 0, 0);
     }
 
-    private static void coefficientThrows() {
-        Class<IndexOutOfBoundsException> none = IndexOutOfBoundsException.class;
-        BoxFlow flow = flowOf("x=1;y=y^2;", 4, ONE, 4, 0, 0, 40 * ONE, 40 * ONE);
-        int[][] wrong = {{-1, 0}, {2, 0}, {3, 0}, {0, -1}, {0, 10}, {Integer.MIN_VALUE, 0}, {0, Integer.MIN_VALUE},
-            {Integer.MAX_VALUE, Integer.MAX_VALUE}, {2, 9}};
-        for (int[] w : wrong) {
-            dueNoCoefficient(flow, w[0], w[1], none);
+    /** "IndexOutOfBoundsException: there is none such" */
+    private static void coefficientThereIsNone() {
+        int[][] wrong = {{-1, 0}, {2, 0}, {3, 0}, {0, -1}, {0, 10}, {1, 10}, {LEAST, 0}, {MOST, 0}, {0, LEAST}, {0, MOST},
+            {2, 9}, {MOST, MOST}};
+        dueNothingChanged("coefficient of none", flow -> {
+            for (int[] w : wrong) {
+                bench.dueNoCoefficient(flow, w[0], w[1], IndexOutOfBoundsException.class);
+            }
+        });
+        BoxFlow far = bench.flowOf("x=x^2;");
+        far.begin(0, LIMIT, LIMIT);
+        bench.dueNoCoefficient(far, 0, 10, IndexOutOfBoundsException.class);
+        bench.dueNoCoefficient(far, 1, 1, IndexOutOfBoundsException.class);
+        bench.dueNoCoefficient(far, 0, 9, ArithmeticException.class);
+    }
+
+    /** "a number that comes up is beyond the LIMIT (of all letters ..)": those behind the letter and those ahead of it. */
+    private static void coefficientIsBeyondForAllLetters() {
+        String[] tapes = {"x=1;y=1;z=z^2;", "x=1;y=y^2;z=1;", "x=x^2;y=1;z=1;"};
+        for (int i = 0; i < 3; i++) {
+            BoxFlow flow = bench.flowOf(tapes[i]);
+            int large = 2 - i;
+            flow.begin(large, 32 * ONE, 32 * ONE);
+            for (int v = 0; v < 3; v++) {
+                int due = v == large ? LIMIT : ONE;
+                bench.dueCoefficient(flow, v, 1, due, due);
+            }
+            flow.begin(large, 32 * ONE, 32 * ONE + 1);
+            for (int v = 0; v < 3; v++) {
+                bench.dueNoCoefficient(flow, v, 1, ArithmeticException.class);
+                bench.dueNoCoefficient(flow, v, 9, ArithmeticException.class);
+            }
+            flow.begin(large, -32 * ONE - 1, 32 * ONE);
+            bench.dueNoCoefficient(flow, 0, 1, ArithmeticException.class);
+            flow.begin(large, -32 * ONE, 32 * ONE);
+            bench.dueCoefficient(flow, large, 1, -LIMIT, LIMIT);
         }
-        dueCoefficient(flow, 0, 0, 0, 0);
-        // y's number 1 is 1600, and counts for x too.
-        dueNoCoefficient(flow, 0, 1, ArithmeticException.class);
-        dueNoCoefficient(flow, 1, 9, ArithmeticException.class);
-        flow.begin(1, 32 * ONE, 32 * ONE);
-        dueCoefficient(flow, 1, 1, LIMIT, LIMIT);
-        dueNoCoefficient(flow, 0, 2, ArithmeticException.class);
-        flow.begin(1, -32 * ONE, 32 * ONE);
-        dueCoefficient(flow, 1, 1, -LIMIT, LIMIT);
-        flow.begin(1, -32 * ONE, 32 * ONE + 1);
-        dueNoCoefficient(flow, 1, 1, ArithmeticException.class);
-        // What is beyond on the way counts too.
-        dueNoCoefficient(flowOf("x=x+x-x;", 4, ONE, 4, LIMIT, LIMIT), 0, 1, ArithmeticException.class);
-        dueCoefficient(flowOf("x=x-x+x;", 4, ONE, 4, LIMIT, LIMIT), 0, 1, LIMIT, LIMIT);
-        dueNoCoefficient(flowOf("x=0x^2;", 4, ONE, 4, -LIMIT, -LIMIT), 0, 10, none);
-        dueCoefficient(flowOf("x=0x^2;", 4, ONE, 4, -LIMIT, -LIMIT), 0, 1, 0, 0);
-        dueNoCoefficient(flowOf("x=1/2x-x;", 4, ONE, 4, -LIMIT, LIMIT), 0, 1, ArithmeticException.class);
-        check.due("a refused coefficient leaves the run", flow.state(2), 1);
+    }
+
+    /** "(.. up to number k)": lesser ones are told, whatever comes behind them. */
+    private static void coefficientIsBeyondUpToItsNumber() {
+        BoxFlow flow = bench.flowOf("x=x^2;", 4, ONE, 4, 4 * ONE, 4 * ONE);
+        for (int time = 0; time < 2; time++) {
+            for (int k = 0; k <= 3; k++) {
+                bench.dueCoefficient(flow, 0, k, ONE << 2 * k + 2, ONE << 2 * k + 2);
+            }
+            for (int k = 4; k <= 9; k++) {
+                bench.dueNoCoefficient(flow, 0, k, ArithmeticException.class);
+            }
+        }
+        flow.begin(0, LIMIT, LIMIT);
+        bench.dueCoefficient(flow, 0, 0, LIMIT, LIMIT);
+        bench.dueNoCoefficient(flow, 0, 1, ArithmeticException.class);
+        flow.begin(0, -LIMIT, -LIMIT);
+        bench.dueCoefficient(flow, 0, 0, -LIMIT, -LIMIT);
+        bench.dueNoCoefficient(flow, 0, 1, ArithmeticException.class);
+        BoxFlow refused = bench.flowOf("x=x^2;", 4, ONE, 4, ONE / 2, ONE / 2);
+        BoxFlow other = bench.flowOf("x=x^2;", 4, ONE, 4, ONE / 2, ONE / 2);
+        refused.begin(0, 40 * ONE, 40 * ONE);
+        bench.dueNoCoefficient(refused, 0, 9, ArithmeticException.class);
+        refused.begin(0, ONE / 2, ONE / 2);
+        refused.step(3);
+        other.step(3);
+        bench.dueAlike("behind a coefficient beyond the LIMIT", refused, other);
+    }
+
+    // ---- calls that only ask
+
+    private static void askingChangesNothing() {
+        dueNothingChanged("calls that only ask", flow -> {
+            Bench.look(flow);
+            for (int what = -1; what <= 6; what++) {
+                flow.state(what);
+            }
+            for (int k = 0; k <= 9; k++) {
+                flow.coefficient(k % 2, k, k % 3 == 0);
+            }
+        });
     }
 }
