@@ -23,6 +23,7 @@ public final class PromiseTest {
         typeFillsTheTape();
         typeRefusedChangesNothing();
         compileTellsHowManySides();
+        compileForgetsEarlierProblems();
         compileEmptiesTheTape();
         compileBeginsAllLettersAtZero();
         compileBeginsTheRunAnew();
@@ -234,10 +235,35 @@ public final class PromiseTest {
                 bench.due("begin of letter " + v, flow.begin(v, 0, 0), v < sides[i]);
             }
         }
-        // The letters, the CROSSING and the terms of an earlier problem are gone.
         bench.dueNoBox(flow, 0, 1, 0);
         bench.dueBox(flow, 0, 3, 0, 0);
-        bench.dueCoefficient(flow, 0, 1, ONE, ONE);
+    }
+
+    /** Each problem is the one that stands on the tape, whatever was compiled before it, with a fault or without. */
+    private static void compileForgetsEarlierProblems() {
+        String[] tapes = {"x=7x^2y^3z-5y;y=x^4;z=z^2;g=x-y-z;", "x=2;y=x;g=y;", "x=3x+y;y=2x;g=5;", "x=1/2;", "x=4x;g=x^2;"};
+        BoxFlow flow = new BoxFlow();
+        for (String tape : tapes) {
+            for (String spoilt : new String[] {"", "x=9x^2y^2z^2+8xyz;y=7z;z=6x;g=x^4;?"}) {
+                bench.typeAll(flow, spoilt);
+                if (!spoilt.isEmpty()) {
+                    bench.dueThrow("compile()", () -> flow.compile(), IllegalArgumentException.class);
+                }
+                bench.typeAll(flow, tape);
+                flow.compile();
+                BoxFlow other = bench.flowOf(tape, 4, ONE, 4);
+                bench.begin(flow, ONE, ONE + 5);
+                bench.begin(other, ONE, ONE + 5);
+                bench.due("sign of " + tape, flow.box(0, 3, 1), other.box(0, 3, 1));
+                for (int k = 1; k <= 4; k++) {
+                    int number = k;
+                    bench.due("coefficient of " + tape, Bench.answer(() -> flow.coefficient(0, number, true)),
+                        Bench.answer(() -> other.coefficient(0, number, true)));
+                }
+                bench.due("step(2) of " + tape, Bench.answer(() -> flow.step(2)), Bench.answer(() -> other.step(2)));
+                bench.due("coefficient behind it", flow.coefficient(0, 0, true), other.coefficient(0, 0, true));
+            }
+        }
     }
 
     /** "(which is empty then in any case)" */
@@ -822,6 +848,15 @@ public final class PromiseTest {
             for (int k = 0; k <= 9; k++) {
                 flow.coefficient(k % 2, k, k % 3 == 0);
             }
+        });
+        dueNothingChanged("calls that ask for what there is not", flow -> {
+            bench.dueNoBox(flow, 3, 0, 0);
+            bench.dueNoBox(flow, -1, 3, 0);
+            bench.dueNoBox(flow, 0, 2, 0);
+            bench.dueNoBox(flow, 0, 0, 4);
+            bench.dueNoCrossing(flow, 0, 0);
+            bench.dueNoCrossing(flow, -1, 3);
+            bench.dueNoCoefficient(flow, 2, 0, IndexOutOfBoundsException.class);
         });
     }
 }

@@ -448,6 +448,12 @@ public final class RunTest {
         bench.due("sign of a square at the LIMIT", square.box(0, 3, 1), 1);
         bench.begin(square, 32 * ONE, 32 * ONE + 1);
         bench.due("sign of a square beyond the LIMIT", square.box(0, 3, 1), 0);
+        // What is beyond on the way counts, though the last letter brings it back.
+        BoxFlow product = bench.flowOf("x=0;y=0;g=x^2y;");
+        bench.begin(product, 32 * ONE, 32 * ONE, 1024, 1024);
+        bench.due("sign of a product with the LIMIT", product.box(0, 3, 1), 1);
+        bench.begin(product, 32 * ONE, 32 * ONE + 1);
+        bench.due("sign of a product with more", product.box(0, 3, 1), 0);
         // Such a 0 is passed over as any other: x is 31, 31.5, 32, 32.5, and g is beyond from 32.5 on.
         BoxFlow flow = bench.flowOf("x=1;g=x^2-999;", 2, FAR, 1, 31 * ONE, 31 * ONE);
         bench.due("step(3)", flow.step(3), 3);

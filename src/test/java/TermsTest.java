@@ -186,6 +186,8 @@ public final class TermsTest {
         bench.dueFault("x=1;y=2;z=3;x=4;", 12);
         bench.dueFault("x=1;y=2;z=3;z=4;", 12);
         bench.dueFault("x=1;w=2;", 4);
+        bench.dueFault("w=1;x=1;", 0);
+        bench.dueFault("x=1;y=2;z=3;{=4;", 12);
         bench.dueFault("X=1;", 0);
         bench.dueFault("x1;", 1);
         bench.dueFault("x==1;", 2);
@@ -518,8 +520,10 @@ public final class TermsTest {
     private static void aNumbersSeriesIsZeroBehindIt() {
         BoxFlow flow = bench.flowOf("x=1/3;");
         bench.dueCoefficient(flow, 0, 1, 349525, 349526);
+        BoxFlow several = bench.flowOf("x=5-1/7+1/9-3;");
         for (int k = 2; k <= 9; k++) {
             bench.dueCoefficient(flow, 0, k, 0, 0);
+            bench.dueCoefficient(several, 0, k, 0, 0);
         }
     }
 
