@@ -44,29 +44,23 @@ public final class BoxFlow {
     private static final int FAILED = 1;
     private static final int BEYOND = 2;
 
-    private final byte[] tape;
-    private int typed;
     private int faultPlace;
     private final Parser parser;
     private Problem problem;
     /** compile() reads into this one, so that a fault leaves the problem as it is. */
     private Problem spare;
     private final Run run;
-    private final Coefficients coefficients;
 
     public BoxFlow() {
-        tape = new byte[TAPE_ROOM];
-        typed = 0;
         faultPlace = NONE;
-        parser = new Parser(tape);
+        parser = new Parser();
         problem = new Problem();
         spare = new Problem();
-        coefficients = new Coefficients();
-        run = new Run(coefficients);
+        run = new Run();
     }
 
     public boolean type(long word, int n) {
-        if (n < 1 || n > MOST_BYTES || n > TAPE_ROOM - typed) {
+        if (n < 1 || n > MOST_BYTES || n > parser.room()) {
             return false;
         }
         for (int i = 0; i < n; i++) {
@@ -76,8 +70,7 @@ public final class BoxFlow {
             }
         }
         for (int i = n - 1; i >= 0; i--) {
-            tape[typed] = (byte) byteOf(word, i);
-            typed++;
+            parser.add(byteOf(word, i));
         }
         return true;
     }
@@ -87,8 +80,8 @@ public final class BoxFlow {
     }
 
     public int compile() throws IllegalArgumentException {
-        faultPlace = parser.read(typed, spare);
-        typed = 0;
+        faultPlace = parser.read(spare);
+        parser.emptyTape();
         if (faultPlace != NONE) {
             throw new IllegalArgumentException("the tape has a fault");
         }
@@ -190,6 +183,7 @@ public final class BoxFlow {
         if (v < 0 || v >= problem.sides || k < 0 || k >= COEFFICIENTS) {
             throw new IndexOutOfBoundsException("there is no such coefficient");
         }
+        Coefficients coefficients = run.trial.coefficients;
         if (!coefficients.fill(problem, run.present, k)) {
             throw new ArithmeticException("a number is beyond the limit");
         }
@@ -350,12 +344,12 @@ public final class BoxFlow {
         }
     }
 
-    /** Reads a tape into a problem. A method that answers false has noted the place of the fault. */
+    /** Holds the tape and reads it into a problem. A method that answers false has noted the place of the fault. */
     private static final class Parser {
         /** No byte of a tape is 0. */
         private static final int END = 0;
 
-        private final byte[] text;
+        private final byte[] tape;
         private int length;
         private int place;
         private int fault;
@@ -363,8 +357,8 @@ public final class BoxFlow {
         private int below;
         private final int[] firstPlaces;
 
-        Parser(byte[] tape) {
-            text = tape;
+        Parser() {
+            tape = new byte[TAPE_ROOM];
             length = 0;
             place = 0;
             fault = NONE;
@@ -373,9 +367,24 @@ public final class BoxFlow {
             firstPlaces = new int[LETTERS];
         }
 
+        int room() {
+            return TAPE_ROOM - length;
+        }
+
+        void add(int c) {
+            if (length < TAPE_ROOM) {
+                tape[length] = (byte) c;
+                length++;
+            }
+        }
+
+        void emptyTape() {
+            length = 0;
+        }
+
         /** The place of the fault, or NONE. */
-        int read(int typed, Problem into) {
-            startOver(typed);
+        int read(Problem into) {
+            startOver();
             boolean good = readEquation('x', into.side[0]);
             into.sides = 1;
             for (int v = 1; v < LETTERS && good && here() == 'x' + v; v++) {
@@ -392,8 +401,7 @@ public final class BoxFlow {
             return good ? firstWithoutSide(into.sides) : fault;
         }
 
-        private void startOver(int typed) {
-            length = typed;
+        private void startOver() {
             place = 0;
             fault = NONE;
             for (int v = 0; v < LETTERS; v++) {
@@ -538,7 +546,7 @@ public final class BoxFlow {
         }
 
         private int here() {
-            return place < length ? text[place] : END;
+            return place < length ? tape[place] : END;
         }
 
         private boolean faultAt(int where) {
@@ -638,18 +646,19 @@ public final class BoxFlow {
     private static final class Trial {
         final Row proved;
         final Row next;
+        /** Filled anew by all who ask for some, so that one set of rows is enough for an object. */
+        final Coefficients coefficients;
         private final Row guess;
         private final Row rest;
         private final Interval at;
-        private final Coefficients coefficients;
 
-        Trial(Coefficients shared) {
+        Trial() {
             proved = new Row(LETTERS);
             next = new Row(LETTERS);
+            coefficients = new Coefficients();
             guess = new Row(LETTERS);
             rest = new Row(LETTERS);
             at = new Interval();
-            coefficients = shared;
         }
 
         /** Seeks the PROVED box: DONE, FAILED or BEYOND. */
@@ -826,11 +835,11 @@ public final class BoxFlow {
         final Row first;
         final Row present;
         final History history;
+        final Trial trial;
         private int calmSteps;
-        private final Trial trial;
         private final Interval at;
 
-        Run(Coefficients coefficients) {
+        Run() {
             order = 4;
             horizon = 1 << 20;
             coarseness = 4;
@@ -841,8 +850,8 @@ public final class BoxFlow {
             first = new Row(LETTERS);
             present = new Row(LETTERS);
             history = new History();
+            trial = new Trial();
             calmSteps = 0;
-            trial = new Trial(coefficients);
             at = new Interval();
         }
 
