@@ -38,6 +38,8 @@ public final class TermsTest {
         valueTakesTheLettersOfXFirst();
         valueSquaresByTimes();
         productsOfSeriesAreRoundedOneByOne();
+        productsOfSeriesGoFromNumberZeroOn();
+        seriesGoTermByTerm();
         aNumbersSeriesIsZeroBehindIt();
         coefficientsAreDividedOneByOne();
         coefficientsOfSeveralLetters();
@@ -513,6 +515,42 @@ public final class TermsTest {
         int[] eighths = {8, 8, 12, 20, 35, 63};
         for (int k = 0; k < eighths.length; k++) {
             bench.dueCoefficient(cubed, 0, k, eighths[k] * (ONE / 8), eighths[k] * (ONE / 8));
+        }
+    }
+
+    /**
+     * "for j = 0, 1, .. k SUM of what there is": what is beyond the LIMIT on the way depends on their order, and on which
+     * one is the first. Numbers 0 .. 2 of y and z are 4, 32, 128 (the first one perhaps negative).
+     */
+    private static void productsOfSeriesGoFromNumberZeroOn() {
+        // 512 + 1024 - 512
+        BoxFlow beyond = bench.flowOf("x=yz;y=8y;z=8z+64;");
+        bench.begin(beyond, 0, 0, 4 * ONE, 4 * ONE, -4 * ONE, -4 * ONE);
+        bench.dueCoefficient(beyond, 0, 2, 0, 0);
+        bench.dueCoefficient(beyond, 1, 2, 128 * ONE, 128 * ONE);
+        bench.dueCoefficient(beyond, 2, 2, 128 * ONE, 128 * ONE);
+        bench.dueNoCoefficient(beyond, 0, 3, ArithmeticException.class);
+        // -512 + 1024 + 512; a z that stands ahead of the y is the second one all the same.
+        for (String tape : new String[] {"x=yz;y=8y+64;z=8z;", "x=zy;y=8y+64;z=8z;"}) {
+            BoxFlow flow = bench.flowOf(tape);
+            bench.begin(flow, 0, 0, -4 * ONE, -4 * ONE, 4 * ONE, 4 * ONE);
+            bench.dueCoefficient(flow, 0, 2, 0, 0);
+            bench.dueCoefficient(flow, 0, 3, LIMIT / 3, LIMIT / 3 + 1);
+        }
+    }
+
+    /** "as its VALUE, with PRODUCTS instead of TIMES": numbers behind 0 too are added TERM by TERM, as they stand. */
+    private static void seriesGoTermByTerm() {
+        String[] tapes = {"x=y-y+y;", "x=-y+y+y;", "x=y+y-y;", "x=-y-y+y;"};
+        for (int i = 0; i < tapes.length; i++) {
+            BoxFlow flow = bench.flowOf(tapes[i] + "y=z;z=0;");
+            bench.begin(flow, 0, 0, 0, 0, LIMIT, LIMIT);
+            bench.dueCoefficient(flow, 0, 1, 0, 0);
+            if (i < 2) {
+                bench.dueCoefficient(flow, 0, 2, LIMIT / 2, LIMIT / 2);
+            } else {
+                bench.dueNoCoefficient(flow, 0, 2, ArithmeticException.class);
+            }
         }
     }
 
